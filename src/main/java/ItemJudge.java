@@ -126,8 +126,14 @@ public final class ItemJudge {
         memo = new Memo();
         referee = new Judge(rules, items, memo);
         writer = new Writer(items);
-        addPrelude(rules);
-        addPrelude(spare);
+        rules.tokens.cutPrelude();
+        spare.tokens.cutPrelude();
+        parser.readRules(rules);
+        checker.bind(rules);
+        rules.keepPrelude();
+        parser.readRules(spare);
+        checker.bind(spare);
+        spare.keepPrelude();
     }
 
     public int feed(int a, int b, int c, int d, int e) {
@@ -147,13 +153,19 @@ public final class ItemJudge {
     }
 
     public int grammar() {
-        spare.begin(tape, taped);
+        Rules next = spare;
+        next.begin();
+        next.tokens.cutOwn(tape, taped, next.ownToken);
         taped = 0;
-        int fault = faultOf(spare);
-        if (fault != 0) return -fault;
-        Rules old = rules;
-        rules = spare;
-        spare = old;
+        if (!parser.readRules(next)) return faulty(1, parser.failedToken());
+        int fault = checker.firstFault(next);
+        if (fault != 0) return faulty(fault, checker.blamedToken());
+        int loop = limits.firstLoop(next);
+        if (loop >= 0) return faulty(9, loop);
+        boolean tooMuch = !next.instances.fill(next) || limits.groupsTooLarge() || limits.pathsTooLong();
+        if (tooMuch) return faulty(10, next.tokens.lastToken());
+        spare = rules;
+        rules = next;
         faultPlace = NONE;
         referee.obey(rules);
         memo.renew(0);
@@ -214,34 +226,10 @@ public final class ItemJudge {
         }
     }
 
-    private void addPrelude(Rules r) {
-        r.beginPrelude();
-        parser.readRules(r);
-        checker.bind(r);
-        r.keepPrelude();
-    }
-
-    /** The number of the FAULT, 0 if there is none; its place is kept. */
-    private int faultOf(Rules r) {
-        if (!parser.readRules(r)) {
-            faultPlace = r.tokens.placeOf(parser.failedToken());
-            return 1;
-        }
-        int fault = checker.firstFault(r);
-        if (fault != 0) {
-            faultPlace = r.tokens.placeOf(checker.blamedToken());
-            return fault;
-        }
-        int loop = limits.firstLoop(r);
-        if (loop >= 0) {
-            faultPlace = r.tokens.placeOf(loop);
-            return 9;
-        }
-        if (!r.instances.fill(r) || limits.groupsTooLarge() || limits.pathsTooLong()) {
-            faultPlace = r.tokens.lastPlace();
-            return 10;
-        }
-        return 0;
+    /** The answer to a text with this FAULT at this token. */
+    private int faulty(int fault, int token) {
+        faultPlace = spare.tokens.placeOf(token);
+        return -fault;
     }
 
     private static int at(int[] row, int i) {
@@ -327,15 +315,15 @@ public final class ItemJudge {
         }
 
         int kindOf(int i) {
-            return i >= 0 && i < count ? at(kind, i) : T_END;
+            return i >= 0 && i < count && i < kind.length ? kind[i] : T_END;
         }
 
         int placeOf(int i) {
             return at(start, i) - OWN_TEXT;
         }
 
-        int lastPlace() {
-            return stop - OWN_TEXT;
+        int lastToken() {
+            return count - 1;
         }
 
         int bodyByte(int i, int j) {
@@ -345,8 +333,10 @@ public final class ItemJudge {
         boolean sameBody(int i, int j) {
             int n = at(bodySize, i);
             if (n != at(bodySize, j)) return false;
+            int p = at(bodyStart, i);
+            int q = at(bodyStart, j);
             for (int k = 0; k < n; k++) {
-                if (bodyByte(i, k) != bodyByte(j, k)) return false;
+                if (byteAt(text, p + k) != byteAt(text, q + k)) return false;
             }
             return true;
         }
@@ -354,8 +344,9 @@ public final class ItemJudge {
         boolean isWord(int i, String word) {
             int n = at(bodySize, i);
             if (n != word.length()) return false;
+            int p = at(bodyStart, i);
             for (int k = 0; k < n && k < word.length(); k++) {
-                if (bodyByte(i, k) != word.charAt(k)) return false;
+                if (byteAt(text, p + k) != word.charAt(k)) return false;
             }
             return true;
         }
@@ -406,7 +397,7 @@ public final class ItemJudge {
         }
 
         private int look(int p) {
-            return p < stop ? byteAt(text, p) : NONE;
+            return p >= 0 && p < stop && p < text.length ? text[p] & 255 : NONE;
         }
 
         private int behindBlanks(int p) {
@@ -429,6 +420,7 @@ public final class ItemJudge {
             newHigh = 0;
             if (c == 'h' && look(p + 1) == '\'') return hexBytes(p + 2);
             if (startsName(c)) return named(p, T_NAME);
+            if (isDigit(c) && look(behindUint(p)) == '*') return occur(behindUint(p), number);
             if (isDigit(c)) return numberAt(p, false);
             if (c == '-') return numberAt(p + 1, true);
             if (c == '"') return quoted(p + 1, c, T_TEXT);
@@ -481,7 +473,6 @@ public final class ItemJudge {
             if (f >= 0) return sign(T_FLOAT, f);
             int q = behindUint(p);
             if (q < 0) return NONE;
-            if (!less && look(q) == '*') return occur(q, number);
             // A number below 0 is kept as the major 1 that it would be: -1 less what is kept.
             boolean negative = less && number != 0;
             newHigh = negative ? 1 : 0;
@@ -535,18 +526,18 @@ public final class ItemJudge {
             for (; q < stop; q++) {
                 int d = digit(look(q));
                 if (d < 0 || d >= base) break;
-                if (!staysBelow(value, base, d)) return NONE;
+                if (value < 0 || value > mostBefore(base, d)) return NONE;
                 value = value * base + d;
             }
             number = value;
             return q > p ? q : NONE;
         }
 
-        private static boolean staysBelow(long value, int base, int d) {
-            if (base == 16) return value >>> 60 == 0;
-            if (base == 2) return value >= 0;
-            long most = 1844674407370955161L;
-            return below(value, most) || value == most && d <= 5;
+        /** The greatest value that stays below 2^64 when this digit is put behind it. */
+        private static long mostBefore(int base, int d) {
+            if (base == 16) return (1L << 60) - 1;
+            if (base == 2) return (1L << 62) - 1 + (1L << 62);
+            return d <= 5 ? 1844674407370955161L : 1844674407370955160L;
         }
 
         private int behindFloat(int p) {
@@ -639,12 +630,8 @@ public final class ItemJudge {
             return c >= '0' && c <= '9';
         }
 
-        private static boolean isLetter(int c) {
-            return c >= 'a' && c <= 'z' || c >= 'A' && c <= 'Z';
-        }
-
         private static int digit(int c) {
-            if (isDigit(c)) return c - '0';
+            if (c >= '0' && c <= '9') return c - '0';
             if (c >= 'a' && c <= 'f') return c - 'a' + 10;
             if (c >= 'A' && c <= 'F') return c - 'A' + 10;
             return NONE;
@@ -652,11 +639,11 @@ public final class ItemJudge {
 
         /** What no number may be right before. */
         private static boolean sticks(int c) {
-            return isLetter(c) || isDigit(c) || c == '_';
+            return startsName(c) && c != '@' && c != '$' || isDigit(c);
         }
 
         private static boolean startsName(int c) {
-            return isLetter(c) || c == '@' || c == '_' || c == '$';
+            return c >= 'a' && c <= 'z' || c >= 'A' && c <= 'Z' || c == '@' || c == '_' || c == '$';
         }
 
         private static boolean goesOnName(int c) {
@@ -696,33 +683,33 @@ public final class ItemJudge {
         }
 
         int add(int k, int tok) {
-            if (count >= NODE_ROOM) return NONE;
             int n = count;
+            if (n < 0 || n >= NODE_ROOM) return NONE;
             count++;
-            put(kind, n, k);
-            put(token, n, tok);
-            put(next, n, NONE);
-            put(first, n, NONE);
-            put(second, n, NONE);
-            put(third, n, NONE);
-            put(mark, n, 0);
+            kind[n] = k;
+            token[n] = tok;
+            next[n] = NONE;
+            first[n] = NONE;
+            second[n] = NONE;
+            third[n] = NONE;
+            mark[n] = 0;
             return n;
         }
 
         int kindOf(int n) {
-            return at(kind, n);
+            return n >= 0 && n < kind.length ? kind[n] : NONE;
         }
 
         int nextOf(int n) {
-            return at(next, n);
+            return n >= 0 && n < next.length ? next[n] : NONE;
         }
 
         int firstOf(int n) {
-            return at(first, n);
+            return n >= 0 && n < first.length ? first[n] : NONE;
         }
 
         int secondOf(int n) {
-            return at(second, n);
+            return n >= 0 && n < second.length ? second[n] : NONE;
         }
 
         boolean isName(int n) {
@@ -791,10 +778,6 @@ public final class ItemJudge {
             chain = new int[RULE_ROOM];
         }
 
-        void beginPrelude() {
-            tokens.cutPrelude();
-        }
-
         void keepPrelude() {
             ownToken = tokens.count;
             ownNode = tree.count;
@@ -802,8 +785,7 @@ public final class ItemJudge {
             ownRule = count;
         }
 
-        void begin(byte[] text, int n) {
-            tokens.cutOwn(text, n, ownToken);
+        void begin() {
             tree.count = ownNode;
             statements = ownStatement;
             count = ownRule;
@@ -877,15 +859,8 @@ public final class ItemJudge {
             return at(head, s) + 2 + 2 * i;
         }
 
-        int ownRuleNamed(int tok) {
-            return ruleNamed(tok, ownRule, count);
-        }
-
-        int preludeRuleNamed(int tok) {
-            return ruleNamed(tok, 0, ownRule);
-        }
-
-        private int ruleNamed(int tok, int from, int to) {
+        /** Which of the rules from .. to - 1 has the NAME of this token; NONE. */
+        int ruleNamed(int tok, int from, int to) {
             for (int r = from; r < to; r++) {
                 if (tokens.sameBody(tok, headOf(r))) return r;
             }
@@ -904,8 +879,8 @@ public final class ItemJudge {
         int target(int tok, int s) {
             int p = paramNamed(tok, s);
             if (p >= 0) return TO_PARAM + p;
-            int r = ownRuleNamed(tok);
-            if (r < 0) r = preludeRuleNamed(tok);
+            int r = ruleNamed(tok, ownRule, count);
+            if (r < 0) r = ruleNamed(tok, 0, ownRule);
             if (r >= 0) return r;
             if (tokens.bodyByte(tok, 0) != '$') return TO_NOTHING;
             return tokens.bodyByte(tok, 1) == '$' ? TO_NO_GROUP : TO_NO_TYPE;
@@ -1006,7 +981,7 @@ public final class ItemJudge {
         }
 
         private boolean take(int k) {
-            if (peek() != k) {
+            if (tokens.kindOf(p) != k) {
                 failed = p;
                 return false;
             }
@@ -1163,9 +1138,15 @@ public final class ItemJudge {
             int tok = p;
             switch (peek()) {
                 case T_NUMBER:
-                case T_FLOAT: return readLiteral(N_NUMBER);
-                case T_TEXT: return readLiteral(N_TEXT);
-                case T_BYTES: return readLiteral(N_BYTES);
+                case T_FLOAT:
+                    p++;
+                    return grow(N_NUMBER, tok);
+                case T_TEXT:
+                    p++;
+                    return grow(N_TEXT, tok);
+                case T_BYTES:
+                    p++;
+                    return grow(N_BYTES, tok);
                 case T_NAME: return readName(N_NAME, tok);
                 case T_HASH: return readHash(tok, longAt(tokens.high, tok), at(tokens.bodySize, tok) > 0);
                 case '{': return readBox(N_MAP, '}');
@@ -1182,12 +1163,6 @@ public final class ItemJudge {
                     return peek() == '(' ? readAndGroup(grow(N_AND_GROUP, tok)) : fail();
                 default: return fail();
             }
-        }
-
-        private int readLiteral(int k) {
-            int n = grow(k, p);
-            p++;
-            return n;
         }
 
         private int readParen(int n) {
@@ -1397,7 +1372,10 @@ public final class ItemJudge {
             bind(r);
             checkFloats();
             for (int n = rules.ownNode; n < tree.count; n++) checkNode(n);
-            if (fault == 0) nameEntries();
+            if (fault == 0) {
+                nameEntries();
+                keepBoxes();
+            }
             return fault;
         }
 
@@ -1423,9 +1401,9 @@ public final class ItemJudge {
 
         private void collect(int s) {
             int tok = at(rules.head, s);
-            int r = rules.ownRuleNamed(tok);
+            int r = rules.ruleNamed(tok, rules.ownRule, rules.count);
             boolean known = r >= 0;
-            if (rules.preludeRuleNamed(tok) >= 0) blame(tok, 2);
+            if (rules.ruleNamed(tok, 0, rules.ownRule) >= 0) blame(tok, 2);
             if (!known) {
                 r = rules.addRule(s);
                 if (rules.ownRules() == MAX_RULES + 1) blame(tok, 3);
@@ -1489,12 +1467,10 @@ public final class ItemJudge {
         private void link(int s) {
             int r = at(rules.owner, s);
             boolean group = at(rules.grouped, r) == 1;
-            if (s != at(rules.opening, r) && tellsGroup(s) != group) {
-                blame(at(rules.head, s), 2);
-                return;
-            }
+            if (s != at(rules.opening, r) && tellsGroup(s) != group) blame(at(rules.head, s), 2);
             int choice = at(rules.choice, s);
-            int more = group ? choice : tree.firstOf(tree.firstOf(choice));
+            // What is told as a GROUP where it must be a TYPE is a choice more of it, too.
+            int more = group || at(rules.typed, s) != 1 ? choice : tree.firstOf(tree.firstOf(choice));
             if (at(rules.chain, r) < 0) put(rules.chain, r, more);
             else tree.append(at(rules.chain, r), more);
         }
@@ -1554,6 +1530,13 @@ public final class ItemJudge {
                 if (!named && !unwrapped) continue;
                 put(tree.kind, n, N_NAMED_ENTRY);
                 put(tree.first, n, only);
+            }
+        }
+
+        /** From here on the mark of ~ NAME is its box. */
+        private void keepBoxes() {
+            for (int n = rules.ownNode; n < tree.count; n++) {
+                if (tree.kindOf(n) == N_UNWRAP) put(tree.mark, n, rules.box(tree.secondOf(n)));
             }
         }
     }
@@ -1754,7 +1737,7 @@ public final class ItemJudge {
 
         /** The box of a ~ NAME, if it stands in the text and not in the prelude. */
         private int ownBox(int n) {
-            int box = rules.box(tree.secondOf(n));
+            int box = at(tree.mark, n);
             return box >= rules.ownNode ? box : NONE;
         }
 
@@ -1827,7 +1810,7 @@ public final class ItemJudge {
             if (tree.kindOf(n) != N_NAMED_ENTRY) return 0;
             int name = tree.firstOf(n);
             int to = tree.secondOf(name);
-            if (tree.kindOf(name) == N_UNWRAP) return Math.max(0, at(seen, RULE_ROOM + rules.box(to)));
+            if (tree.kindOf(name) == N_UNWRAP) return Math.max(0, at(seen, RULE_ROOM + at(tree.mark, name)));
             return rules.isOwn(to) ? at(seen, to) : 0;
         }
 
@@ -2019,42 +2002,40 @@ public final class ItemJudge {
         }
 
         /** Reads one item, that has n bytes of a row, into a level. */
-        boolean readOne(int level, byte[] from, int at, int n, int deep) {
-            open(level, from, at, n);
+        boolean readOne(int level, byte[] from, int offset, int n, int deep) {
+            open(level, from, offset, n);
             int q = readItem(region, NONE, deep);
             if (q >= 0 && q < stop) bad(q);
             return fault < 0;
         }
 
-        /** Reads the bytes of an item as one item of the next level; where that stands, NONE. */
-        int readWithin(int i) {
-            int level = levelOf(i) + 1;
-            if (level > MAX_NESTED) return NONE;
-            return readOne(level, data, at(content, i), (int) numberOf(i), depthOf(i) + 1) ? level * LEVEL_ITEMS : NONE;
-        }
-
-        /** Reads the bytes of an item as items of the next level, in an array that stands nowhere; where that is, NONE. */
-        int readSequence(int i) {
+        /**
+         * Reads the bytes of an item into the next level: as one item, or as items in an array that stands nowhere.
+         * Where that stands; NONE.
+         */
+        int readWithin(int i, boolean one) {
             int level = levelOf(i) + 1;
             if (level > MAX_NESTED) return NONE;
             open(level, data, at(content, i), (int) numberOf(i));
-            int list = level * LEVEL_ITEMS;
+            int held = count;
+            int deep = depthOf(i) + 1;
+            if (one) return readItem(region, NONE, deep) == stop ? held : NONE;
             count++;
             limit++;
-            put(major, list, 4);
-            put(width, list, 0);
-            put(depth, list, depthOf(i));
+            put(major, held, 4);
+            put(width, held, 0);
+            put(depth, held, depthOf(i));
             int p = region;
             int n = 0;
-            for (; n <= MAX_LIST && p >= 0 && p < stop; n++) p = n < MAX_LIST ? readItem(p, list, depthOf(i) + 1) : NONE;
-            putLong(number, list, n);
-            put(after, list, count);
-            return p < 0 ? NONE : list;
+            for (; n <= MAX_LIST && p >= 0 && p < stop; n++) p = n < MAX_LIST ? readItem(p, held, deep) : NONE;
+            putLong(number, held, n);
+            put(after, held, count);
+            return p < 0 ? NONE : held;
         }
 
-        private void open(int level, byte[] from, int at, int n) {
+        private void open(int level, byte[] from, int offset, int n) {
             region = level * LEVEL_BYTES;
-            copy(from, at, data, region, n);
+            copy(from, offset, data, region, n);
             stop = region + n;
             joined = region + TAPE_ROOM;
             count = level * LEVEL_ITEMS;
@@ -2301,10 +2282,8 @@ public final class ItemJudge {
             return items.majorOf(item) == 6 && (any || items.numberOf(item) == longAt(tokens.low, tok));
         }
 
-        /** The item as the number behind lt le gt ge, or as what stands behind eq ne. */
+        /** The item as lt le gt ge asks of it and the number behind. */
         boolean compares(int which, int right, int item) {
-            if (which == C_EQ) return isSo(right, item);
-            if (which == C_NE) return !isSo(right, item);
             if (!isNumber(item)) return false;
             int order = compare(item, at(tree.token, right));
             switch (which) {
@@ -2515,6 +2494,8 @@ public final class ItemJudge {
                 case C_BITS: return hasBits(right, in, item, calls) ? YES : NO;
                 case C_CBOR:
                 case C_CBORSEQ: return holds(n, in, item, calls) ? YES : NO;
+                case C_EQ: return leaves.isSo(right, item) ? YES : NO;
+                case C_NE: return leaves.isSo(right, item) ? NO : YES;
                 default: return leaves.compares(which, right, item) ? YES : NO;
             }
         }
@@ -2550,7 +2531,7 @@ public final class ItemJudge {
             int known = memo.find(key);
             if (known >= 0) return memo.answer(known) == 1;
             boolean one = at(tree.third, n) == C_CBOR;
-            int held = one ? items.readWithin(item) : items.readSequence(item);
+            int held = items.readWithin(item, one);
             boolean yes = false;
             if (held >= 0) {
                 memo.renew(items.levelOf(held));
@@ -2771,7 +2752,7 @@ public final class ItemJudge {
 
         /** What is behind the room is only counted. */
         private void add(int c) {
-            putByte(draft, size, c);
+            if (size >= 0 && size < draft.length) draft[size] = (byte) c;
             size++;
         }
 
@@ -2953,9 +2934,9 @@ public final class ItemJudge {
             int n = 0;
             int key = map + 1;
             for (; n < MAX_LIST && key < items.afterOf(map); n++) {
-                int at = n;
-                for (; at > 0 && isBefore(key, at(order, at - 1)); at--) put(order, at, at(order, at - 1));
-                put(order, at, key);
+                int spot = n;
+                for (; spot > 0 && isBefore(key, at(order, spot - 1)); spot--) put(order, spot, at(order, spot - 1));
+                put(order, spot, key);
                 key = items.afterOf(items.afterOf(key));
             }
             int begin = at(from, map + 1);

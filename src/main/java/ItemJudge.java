@@ -822,6 +822,15 @@ public final class ItemJudge {
             return k >= 0 && k < count - ownRule ? ownRule + k : NONE;
         }
 
+        /** The nodes of a statement stand in a row: from its choice up to the next statement's. */
+        int firstNode(int s) {
+            return at(choice, s);
+        }
+
+        int endNode(int s) {
+            return s + 1 < statements ? at(choice, s + 1) : tree.count;
+        }
+
         int headOf(int r) {
             return at(head, at(opening, r));
         }
@@ -1621,8 +1630,17 @@ public final class ItemJudge {
         }
 
         private boolean callAll(Rules rules, int rule, int in) {
-            for (int n = rules.ownNode; n < tree.count; n++) {
-                if (!tree.isName(n) || tree.firstOf(n) < 0 || rules.ruleOfNode(n) != rule) continue;
+            for (int s = rules.ownStatement; s < rules.statements; s++) {
+                boolean told = at(rules.owner, s) == rule;
+                if (told && !callStatement(rules, s, in)) return false;
+            }
+            return true;
+        }
+
+        private boolean callStatement(Rules rules, int s, int in) {
+            int end = rules.endNode(s);
+            for (int n = rules.firstNode(s); n < end; n++) {
+                if (!tree.isName(n) || tree.firstOf(n) < 0) continue;
                 int instance = called(rules, n, in);
                 if (instance < 0) return false;
                 int row = at(tree.third, n) * (MAX_INSTANCES + 1);
@@ -1694,6 +1712,8 @@ public final class ItemJudge {
         private final int[] seen;
         private final int[] queue;
         private int queued;
+        private int round;
+        private int used;
         private final int[] depths;
         private final int[] inside;
         private final int[] argumentDepths;
@@ -1715,10 +1735,13 @@ public final class ItemJudge {
             rules = r;
             tree = r.tree;
             instances = r.instances;
+            used = RULE_ROOM + tree.count;
+            for (int i = 0; i < used; i++) put(seen, i, 0);
+            round = 0;
             int loop = NONE;
             for (int k = rules.ownRule; k < rules.count && loop < 0; k++) {
                 reach(k, false);
-                if (at(seen, k) == 1) loop = rules.headOf(k);
+                if (at(seen, k) == round) loop = rules.headOf(k);
             }
             for (int n = rules.ownNode; n < tree.count; n++) {
                 if (tree.kindOf(n) != N_UNWRAP) continue;
@@ -1732,7 +1755,7 @@ public final class ItemJudge {
             int box = ownBox(n);
             if (box < 0) return false;
             reach(RULE_ROOM + box, true);
-            return at(seen, context(n)) == 1;
+            return at(seen, context(n)) == round;
         }
 
         /** The box of a ~ NAME, if it stands in the text and not in the prelude. */
@@ -1749,27 +1772,32 @@ public final class ItemJudge {
 
         /** Marks all contexts that NAMES lead to from one; that one itself only if they lead back, or if it counts. */
         private void reach(int from, boolean counts) {
-            for (int i = 0; i < seen.length; i++) put(seen, i, 0);
-            queued = 0;
-            if (counts) see(from);
-            else enqueue(from);
+            round++;
+            queued = 1;
+            put(queue, 0, from);
+            if (counts) put(seen, from, round);
             for (int i = 0; i < queued && i < queue.length; i++) leadOn(at(queue, i));
         }
 
         private void see(int context) {
-            if (at(seen, context) != 0) return;
-            put(seen, context, 1);
-            enqueue(context);
-        }
-
-        private void enqueue(int context) {
+            if (at(seen, context) == round) return;
+            put(seen, context, round);
             put(queue, queued, context);
             queued++;
         }
 
         private void leadOn(int context) {
-            for (int n = rules.ownNode; n < tree.count; n++) {
-                if (!tree.isName(n) || context(n) != context) continue;
+            int held = context < RULE_ROOM ? NONE : at(tree.statement, context - RULE_ROOM);
+            for (int s = rules.ownStatement; s < rules.statements; s++) {
+                if (held < 0 ? at(rules.owner, s) == context : s == held) leadOnIn(s, context);
+            }
+        }
+
+        private void leadOnIn(int s, int context) {
+            int guard = context < RULE_ROOM ? NONE : context - RULE_ROOM;
+            int end = rules.endNode(s);
+            for (int n = rules.firstNode(s); n < end; n++) {
+                if (!tree.isName(n) || at(tree.guard, n) != guard) continue;
                 if (rules.isOwn(tree.secondOf(n))) see(tree.secondOf(n));
                 int box = tree.kindOf(n) == N_UNWRAP ? ownBox(n) : NONE;
                 if (box >= 0) see(RULE_ROOM + box);
@@ -1778,14 +1806,14 @@ public final class ItemJudge {
 
         /** Whether a group has too many entries. What GROUPS have is counted again until nothing changes. */
         boolean groupsTooLarge() {
-            for (int i = 0; i < seen.length; i++) put(seen, i, 0);
-            for (int round = 0; round <= MAX_ENTRIES + 1; round++) {
-                for (int i = 0; i < seen.length; i++) put(queue, i, 0);
+            for (int i = 0; i < used; i++) put(seen, i, 0);
+            for (int time = 0; time <= MAX_ENTRIES + 1; time++) {
+                for (int i = 0; i < used; i++) put(queue, i, 0);
                 for (int n = rules.ownNode; n < tree.count; n++) {
                     if (countEntry(n) > MAX_ENTRIES) return true;
                 }
                 changed = false;
-                for (int i = 0; i < seen.length; i++) {
+                for (int i = 0; i < used; i++) {
                     if (at(seen, i) != at(queue, i)) changed = true;
                     put(seen, i, at(queue, i));
                 }
@@ -1821,14 +1849,15 @@ public final class ItemJudge {
                 put(inside, i, 0);
             }
             for (int i = 0; i < argumentDepths.length; i++) put(argumentDepths, i, 0);
-            for (int round = 0; round <= 4 * MAX_PATH; round++) {
+            for (int time = 0; time <= 4 * MAX_PATH; time++) {
                 changed = false;
-                for (int r = rules.ownRule; r < rules.count; r++) {
-                    if (rules.paramsOf(r) == 0 && measure(r, 0) > MAX_PATH) return true;
-                }
-                for (int i = 1; i <= instances.count; i++) {
-                    if (measure(instances.ruleOf(i), i) > MAX_PATH) return true;
+                // Most rules name later ones, and instances make later ones: the last ones first, less is to do again.
+                for (int i = instances.count; i > 0; i--) {
                     measureArguments(i);
+                    if (measure(instances.ruleOf(i), i) > MAX_PATH) return true;
+                }
+                for (int r = rules.count - 1; r >= rules.ownRule; r--) {
+                    if (rules.paramsOf(r) == 0 && measure(r, 0) > MAX_PATH) return true;
                 }
                 if (!changed) return false;
             }
@@ -1846,12 +1875,15 @@ public final class ItemJudge {
             int entity = instance > 0 ? RULE_ROOM + instance : rule;
             int box = rules.box(rule);
             int most = 0;
-            for (int n = rules.ownNode; n < tree.count; n++) {
-                if (rules.ruleOfNode(n) != rule) continue;
-                int length = pathTo(n, instance);
-                most = Math.max(most, length);
-                if (at(tree.guard, n) < 0) raise(depths, entity, length);
-                else if (at(tree.guard, n) == box) raise(inside, entity, length);
+            for (int s = rules.ownStatement; s < rules.statements; s++) {
+                if (at(rules.owner, s) != rule) continue;
+                int end = rules.endNode(s);
+                for (int n = rules.firstNode(s); n < end; n++) {
+                    int length = pathTo(n, instance);
+                    most = Math.max(most, length);
+                    if (at(tree.guard, n) < 0) raise(depths, entity, length);
+                    else if (at(tree.guard, n) == box) raise(inside, entity, length);
+                }
             }
             return most;
         }

@@ -713,7 +713,7 @@ public final class ItemJudge {
         }
 
         boolean isName(int n) {
-            int k = at(kind, n);
+            int k = n >= 0 && n < kind.length ? kind[n] : NONE;
             return k == N_NAME || k == N_UNWRAP || k == N_AND_NAME;
         }
 

@@ -17,7 +17,7 @@ public final class ItemTest {
 
     private static void wellFormed() {
         String[] ones = {"00", "17", "1818", "1800", "190000", "1a00000000", "1b0000000000000000", "1bffffffffffffffff", "20", "37", "3818",
-            "3bffffffffffffffff", "40", "4101", "5800", "590001ff", "5f ff", "5f4101420203ff", "5f40ff", "5f580101ff", "60", "61ff", "7fff", "7f60ff",
+            "3bffffffffffffffff", "40", "4101", "5800", "590001ff", "5f ff", "5f4101420203ff", "5f40ff", "5f580101ff", "5f5900015a5a00000000ff", "5f5b000000000000000101ff", "60", "61ff", "7fff", "7f60ff",
             "80", "9fff", "a0", "bfff", "9800", "b90000", "e0", "f3", "f4", "f7", "f820", "f8ff", "f97e00", "fa00000000", "fb0000000000000000"};
         for (String hex : ones) P.items(hex.replace(" ", ""), 1);
         P.items("8301820203a10405", 8);
@@ -49,6 +49,8 @@ public final class ItemTest {
         P.illFormed("7f4100ff", 1);
         P.illFormed("7f7fffff", 1);
         P.illFormed("5f5cff", 1);
+        P.illFormed("5f5b00000000000000", 9);
+        P.illFormed("5f5b0000000000000002ff", 11);
         P.illFormed("5f41", 2);
         P.illFormed("81ff", 1);
         P.illFormed("c1ff", 1);

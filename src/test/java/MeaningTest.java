@@ -301,6 +301,8 @@ public final class MeaningTest {
         tooMuch("a = b<1> b<p> = [b<(p)>]");
         tooMuch("a = b<1> b<p> = [b<[p]>]");
         P.rules("a = b<1> b<p> = [b<[1]>]", 2);
+        P.rules("a = b<1> b<p> = [b<int>]", 2);
+        P.rules("a = b<1> b<p> = [b<[int, c<1>]>] c<p> = [p]", 3);
         // Without a rule that uses it there are none.
         P.rules("b<p> = [b<[p]>]", 1);
         tooMuch("a = b<1> b<p> = [c<p>, c<[p]>] c<p> = [d<p>, d<[p]>] d<p> = [e<p>, e<[p]>] e<p> = [f<p>, f<[p]>] "
@@ -357,6 +359,14 @@ public final class MeaningTest {
         tooMuch(chain(16, "[int]"));
         P.rules(chain(16, "1 .cbor int"), 17);
         tooMuch(chain(16, "1 .and int"));
+        for (String bracket : new String[] {"{1 => 1}", "#6(1)", "&(1)", "(1)", "[1]", "{}", "[]", "&()"}) {
+            P.rules(chain(15, bracket), 16);
+            tooMuch(chain(16, bracket));
+        }
+        P.rules(chain(14, "(1, 2)"), 15);
+        P.rules(chain(15, "(1, 2)"), 16);
+        tooMuch(chain(16, "(1, 2)"));
+        tooMuch(chain(16, "? ()"));
         // Groups, & and #6: each is in the way of what is in it.
         tooMuch("g = " + Probe.times("(", 15) + "h, 1" + end.substring(1) + " h = (int, 1)");
         P.rules("g = " + Probe.times("(", 13) + "h, 1" + end.substring(3) + " h = (int, 1)", 2);
@@ -376,6 +386,11 @@ public final class MeaningTest {
         // In ~ NAME lies what is in its #6 ( ), too; of a NAME of the prelude nothing more.
         P.rules("a = " + Probe.times("(", 14) + "~b" + end.substring(2) + " b = #6(int)", 2);
         tooMuch("a = " + Probe.times("(", 15) + "~b" + end.substring(1) + " b = #6(int)");
+        P.rules("a = " + Probe.times("(", 13) + "~b" + end.substring(3) + " b = #6((int))", 2);
+        tooMuch("a = " + Probe.times("(", 14) + "~b" + end.substring(2) + " b = #6((int))");
+        P.rules("a = " + Probe.times("(", 12) + "~b<int>" + end.substring(4) + " b<p> = #6((p))", 2);
+        tooMuch("a = " + Probe.times("(", 13) + "~b<int>" + end.substring(3) + " b<p> = #6((p))");
+        tooMuch("a = " + Probe.times("(", 13) + "~b" + end.substring(3) + " b = c c = (#6(((int))))");
         P.rules("a = " + Probe.times("(", 15) + "~time" + end.substring(1), 1);
         tooMuch("a = [" + Probe.times("(", 15) + "~b, 1" + end.substring(1) + "] b = [c] c = 1");
         P.rules("a = [" + Probe.times("(", 13) + "~b, 1" + end.substring(3) + "] b = [c] c = 1", 3);

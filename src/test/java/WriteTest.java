@@ -59,6 +59,7 @@ public final class WriteTest {
         written("7fff", "(_ )");
         written("5f4101ff", "(_ h'01')");
         written("5f41014058020203ff", "(_ h'01', h'', h'0203')");
+        written("5f5b0000000000000001075a0000000208095900010aff", "(_ h'07', h'0809', h'0a')");
         written("7f61616122ff", "(_ \"a\", \"\\\"\")");
     }
 
@@ -150,6 +151,7 @@ public final class WriteTest {
         shortened("7f61616162ff", "626162");
         shortened("5f57" + Probe.times("01", 23) + "4102ff", "5818" + Probe.times("01", 23) + "02");
         shortened("59000101", "4101");
+        shortened("5f5b0000000000000001075a0000000208095900010aff", "440708090a");
         shortened("9fff", "80");
         shortened("9f0102ff", "820102");
         shortened("990001f4", "81f4");

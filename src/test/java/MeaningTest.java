@@ -383,6 +383,8 @@ public final class MeaningTest {
         tooMuch("b<p> = " + Probe.times("(", 16) + "p" + end + " a = b<1>");
         P.rules("b<p> = " + Probe.times("(", 14) + "p" + end.substring(2) + " a = b<1>", 2);
         tooMuch("b<p> = " + Probe.times("(", 15) + "p" + end.substring(1) + " a = b<1>");
+        P.rules("b<p> = [" + Probe.times("(", 15) + "p" + end.substring(1) + "] a = b<1>", 2);
+        tooMuch("b<p> = [" + Probe.times("(", 15) + "p" + end.substring(1) + "] a = b<int>");
         // In ~ NAME lies what is in its #6 ( ), too; of a NAME of the prelude nothing more.
         P.rules("a = " + Probe.times("(", 14) + "~b" + end.substring(2) + " b = #6(int)", 2);
         tooMuch("a = " + Probe.times("(", 15) + "~b" + end.substring(1) + " b = #6(int)");

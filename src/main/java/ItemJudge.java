@@ -164,11 +164,12 @@ public final class ItemJudge {
         if (loop >= 0) return faulty(9, loop);
         boolean tooMuch = !next.instances.fill(next) || limits.groupsTooLarge() || limits.pathsTooLong();
         if (tooMuch) return faulty(10, next.tokens.lastToken());
+        limits.weigh();
         spare = rules;
         rules = next;
         faultPlace = NONE;
         referee.obey(rules);
-        memo.renew(0);
+        memo.renew();
         return rules.ownRules();
     }
 
@@ -190,11 +191,8 @@ public final class ItemJudge {
     public int item() {
         int n = taped;
         taped = 0;
-        // Level 1 is free between two calls: the ITEM that was there is only lost when the new one stands.
-        if (!items.readOne(1, tape, 0, n, 1)) return -2 - items.faultPlace();
-        if (!items.readOne(0, tape, 0, n, 1)) return NONE;
-        memo.renew(0);
-        return items.keepTop();
+        memo.renew();
+        return items.take(tape, n) ? items.size() : -2 - items.faultPlace();
     }
 
     public long node(int k, int what) {
@@ -654,7 +652,9 @@ public final class ItemJudge {
     /**
      * The nodes that are read from tokens. Choices of a type, choices of a group, entries and arguments are chains by next.
      * NAME: first argument, what it leads to, its call; ARGUMENT: its type, and from where to where its nodes stand;
-     * RANGE, CONTROL: left, right, which; ENTRY: its type or choices, its key, whose entry it is.
+     * RANGE, CONTROL: left, right, which; ENTRY: its type or choices, its key, whose entry it is. The weight of a [ ],
+     * { } or entry is how many entries are in it, those of GROUPS put in, an entry itself counting; the place of an
+     * entry is how many of these come before it in its group.
      */
     private static final class Tree {
         final int[] kind;
@@ -667,6 +667,8 @@ public final class ItemJudge {
         final int[] guard;
         final int[] deep;
         final int[] statement;
+        final int[] weight;
+        final int[] place;
         int count;
 
         Tree() {
@@ -680,6 +682,8 @@ public final class ItemJudge {
             guard = new int[NODE_ROOM];
             deep = new int[NODE_ROOM];
             statement = new int[NODE_ROOM];
+            weight = new int[NODE_ROOM];
+            place = new int[NODE_ROOM];
         }
 
         int add(int k, int tok) {
@@ -957,11 +961,13 @@ public final class ItemJudge {
         private int deep;
         private int whose;
         private int scanned;
+        private final boolean[] onlyGroup;
 
         Parser(Rules r) {
             rules = r;
             tokens = r.tokens;
             tree = r.tree;
+            onlyGroup = new boolean[TOKEN_ROOM];
         }
 
         int failedToken() {
@@ -974,6 +980,7 @@ public final class ItemJudge {
             tree = r.tree;
             p = r.ownToken;
             failed = p;
+            for (int i = 0; i < onlyGroup.length; i++) onlyGroup[i] = false;
             for (int i = 0; i < MAX_TOKENS && peek() != T_END; i++) {
                 if (!readStatement()) return false;
             }
@@ -1306,8 +1313,9 @@ public final class ItemJudge {
             int outer = guard;
             int outerDeep = deep;
             int outerWhose = whose;
-            if (readTyped(entry)) return entry;
+            if (!isOnlyGroup(from) && readTyped(entry)) return entry;
             goBack(from, nodes, outer, outerDeep, outerWhose);
+            noteOnlyGroup(from);
             put(tree.kind, entry, N_GROUP_ENTRY);
             put(tree.second, entry, NONE);
             put(tree.mark, entry, 0);
@@ -1318,6 +1326,15 @@ public final class ItemJudge {
             if (group < 0 || !take(')')) return NONE;
             put(tree.first, entry, group);
             return entry;
+        }
+
+        /** Whether the ( of this token has been found to begin no type: what is around may be read again as a group. */
+        private boolean isOnlyGroup(int tok) {
+            return tok >= 0 && tok < onlyGroup.length && onlyGroup[tok];
+        }
+
+        private void noteOnlyGroup(int tok) {
+            if (tok >= 0 && tok < onlyGroup.length) onlyGroup[tok] = true;
         }
 
         /** [ key ] type. The mark of an entry tells that its key is a CUT. */
@@ -1555,6 +1572,9 @@ public final class ItemJudge {
      * An ARGUMENT is an argument's node and the instance in which it is read.
      */
     private static final class Instances {
+        static final int MAX_LED = MAX_RULES + MAX_INSTANCES + 1;
+        static final int SPOTS = 2 * MAX_LED + (MAX_INSTANCES + 1) * MAX_PARAMS;
+
         private final Tree tree;
         private final int[] calls;
         private final int[] madeOf;
@@ -1565,6 +1585,9 @@ public final class ItemJudge {
         int count;
         int box;
         int boxIn;
+        int head;
+        int headIn;
+        int spot;
 
         Instances(Tree t) {
             tree = t;
@@ -1604,6 +1627,38 @@ public final class ItemJudge {
                 if (tree.kindOf(box) != N_NAME) return;
                 n = box;
             }
+        }
+
+        /**
+         * Sets head, headIn and spot for a NAME, & NAME, ~ NAME or an entry that is one: the first choice to which it leads
+         * (NONE: to nothing that is ever so), the instance in which that is read, and its number among all that NAMES can
+         * lead to (NONE in the prelude).
+         */
+        void follow(Rules rules, int n, int in) {
+            int name = tree.kindOf(n) == N_NAMED_ENTRY ? tree.firstOf(n) : n;
+            int to = tree.secondOf(name);
+            head = NONE;
+            headIn = 0;
+            spot = NONE;
+            if (tree.kindOf(name) == N_UNWRAP) {
+                unwrap(rules, name, in);
+                head = tree.firstOf(box);
+                headIn = boxIn;
+                if (box >= rules.ownNode) spot = MAX_LED + ledTo(rules.ruleOfNode(box) - rules.ownRule);
+            } else if (to >= TO_PARAM) {
+                head = tree.firstOf(argumentOf(in, to - TO_PARAM));
+                headIn = argumentPlace(in, to - TO_PARAM);
+                spot = 2 * MAX_LED + in * MAX_PARAMS + to - TO_PARAM;
+            } else if (rules.isRule(to)) {
+                head = at(rules.chain, to);
+                headIn = lead(name, in);
+                if (rules.isOwn(to)) spot = ledTo(to - rules.ownRule);
+            }
+        }
+
+        /** The number of a rule, or of the instance that is headIn. */
+        private int ledTo(int ownRule) {
+            return headIn > 0 ? MAX_RULES + headIn : ownRule;
         }
 
         /** Makes all instances; false if they are too many. */
@@ -1842,6 +1897,34 @@ public final class ItemJudge {
             return rules.isOwn(to) ? at(seen, to) : 0;
         }
 
+        /** Sets weights and places, once groups are known to be small: what is within a node comes behind it. */
+        void weigh() {
+            for (int n = tree.count - 1; n >= 0; n--) {
+                int k = tree.kindOf(n);
+                if (k == N_ARRAY || k == N_MAP) put(tree.weight, n, placeEntries(tree.firstOf(n)));
+                if (k == N_GROUP_ENTRY) put(tree.weight, n, 1 + placeEntries(tree.firstOf(n)));
+                if (k == N_ENTRY || k == N_NAMED_ENTRY) put(tree.weight, n, 1 + countWithin(n));
+            }
+            for (int r = rules.ownRule; r < rules.count; r++) {
+                if (at(rules.grouped, r) == 1) placeEntries(at(rules.chain, r));
+            }
+        }
+
+        private int placeEntries(int choices) {
+            int places = 0;
+            int c = choices;
+            for (int i = 0; i < NODE_ROOM && c >= 0; i++) {
+                int e = tree.firstOf(c);
+                for (int j = 0; j < NODE_ROOM && e >= 0; j++) {
+                    put(tree.place, e, places);
+                    places += at(tree.weight, e);
+                    e = tree.nextOf(e);
+                }
+                c = tree.nextOf(c);
+            }
+            return places;
+        }
+
         /** Whether a PATH is too long. Depths grow from round to round until nothing changes. */
         boolean pathsTooLong() {
             for (int i = 0; i < depths.length; i++) {
@@ -1925,14 +2008,16 @@ public final class ItemJudge {
     }
 
     /**
-     * Items: level 0 is the ITEM, levels 1 to 3 are those in bytes, one within another. From FREE_NUMBERS on an item
-     * is just a number of major 0, which stands nowhere.
+     * Items: from 0 on those of the ITEM, from NESTED on those that bytes hold, which are read when they are asked for
+     * and then stay as long as the ITEM does. Every byte of the tape begins at most one of all these.
      */
     private static final class Items {
-        static final int LEVEL_ITEMS = MAX_ITEMS + 1;
-        static final int FREE_NUMBERS = 1024;
-        private static final int LEVEL_BYTES = 2 * TAPE_ROOM;
-        private static final int ROOM = LEVEL_ITEMS * (MAX_NESTED + 1);
+        static final int NESTED = 256;
+        private static final int ROOM = NESTED + 2 * TAPE_ROOM + 1;
+        private static final int TOLD_ROOM = NESTED + MAX_ITEMS + 1;
+        // The ITEM's bytes come first, then what is joined of parts, then the bytes that may become an ITEM.
+        private static final int JOINED = TAPE_ROOM;
+        private static final int TRIAL = JOINED + (MAX_NESTED + 1) * TAPE_ROOM;
 
         private final byte[] data;
         private final int[] major;
@@ -1942,9 +2027,13 @@ public final class ItemJudge {
         private final int[] parent;
         private final int[] after;
         private final int[] depth;
+        private final int[] level;
+        private final int[] ordinal;
         private final int[] content;
+        private final int[] inside;
         private final long[] number;
         private int top;
+        private int topJoined;
         private int count;
         private int limit;
         private int region;
@@ -1953,24 +2042,27 @@ public final class ItemJudge {
         private int fault;
 
         Items() {
-            data = new byte[LEVEL_BYTES * (MAX_NESTED + 1)];
+            data = new byte[TRIAL + TAPE_ROOM];
             major = new int[ROOM];
             width = new int[ROOM];
-            start = new int[ROOM];
-            behind = new int[ROOM];
-            parent = new int[ROOM];
+            start = new int[TOLD_ROOM];
+            behind = new int[TOLD_ROOM];
+            parent = new int[TOLD_ROOM];
             after = new int[ROOM];
             depth = new int[ROOM];
+            level = new int[ROOM];
+            ordinal = new int[ROOM];
             content = new int[ROOM];
+            inside = new int[ROOM];
             number = new long[ROOM];
+            topJoined = JOINED;
         }
 
         boolean isTop(int i) {
             return i >= 0 && i < top;
         }
 
-        int keepTop() {
-            top = count;
+        int size() {
             return top;
         }
 
@@ -1979,23 +2071,19 @@ public final class ItemJudge {
         }
 
         int majorOf(int i) {
-            return i >= FREE_NUMBERS ? 0 : at(major, i);
+            return at(major, i);
         }
 
         long numberOf(int i) {
-            return i >= FREE_NUMBERS ? i - FREE_NUMBERS : longAt(number, i);
+            return longAt(number, i);
         }
 
         int widthOf(int i) {
-            return i >= FREE_NUMBERS ? 0 : at(width, i);
+            return at(width, i);
         }
 
         int afterOf(int i) {
             return at(after, i);
-        }
-
-        int depthOf(int i) {
-            return at(depth, i);
         }
 
         int startOf(int i) {
@@ -2006,8 +2094,9 @@ public final class ItemJudge {
             return at(behind, i);
         }
 
-        int levelOf(int i) {
-            return i >= FREE_NUMBERS ? 0 : i / LEVEL_ITEMS;
+        /** How many items stand in an array before this one; for the place behind its last one, how many it has. */
+        int placeIn(int list, int i) {
+            return i >= afterOf(list) ? (int) numberOf(list) : at(ordinal, i);
         }
 
         /** Byte j of bytes or text, parts joined. */
@@ -2033,46 +2122,68 @@ public final class ItemJudge {
             }
         }
 
-        /** Reads one item, that has n bytes of a row, into a level. */
-        boolean readOne(int level, byte[] from, int offset, int n, int deep) {
-            open(level, from, offset, n);
-            int q = readItem(region, NONE, deep);
+        /** Takes n bytes as the ITEM; the one that was there stays, if they are none. */
+        boolean take(byte[] from, int n) {
+            for (int i = 0; i < top; i++) put(inside, i, 0);
+            joined = topJoined;
+            boolean good = readWhole(from, n, TRIAL, NESTED);
+            if (good) {
+                joined = JOINED;
+                readWhole(from, n, 0, 0);
+                top = count;
+            }
+            topJoined = good ? joined : topJoined;
+            joined = topJoined;
+            count = NESTED;
+            return good;
+        }
+
+        private boolean readWhole(byte[] from, int n, int place, int first) {
+            copy(from, 0, data, place, n);
+            open(place, n, first);
+            int q = readItem(place, NONE, 1);
             if (q >= 0 && q < stop) bad(q);
             return fault < 0;
         }
 
-        /**
-         * Reads the bytes of an item into the next level: as one item, or as items in an array that stands nowhere.
-         * Where that stands; NONE.
-         */
-        int readWithin(int i, boolean one) {
-            int level = levelOf(i) + 1;
-            if (level > MAX_NESTED) return NONE;
-            open(level, data, at(content, i), (int) numberOf(i));
-            int held = count;
-            int deep = depthOf(i) + 1;
-            if (one) return readItem(region, NONE, deep) == stop ? held : NONE;
-            count++;
-            limit++;
-            put(major, held, 4);
-            put(width, held, 0);
-            put(depth, held, depthOf(i));
-            int p = region;
-            int n = 0;
-            for (; n <= MAX_LIST && p >= 0 && p < stop; n++) p = n < MAX_LIST ? readItem(p, held, deep) : NONE;
-            putLong(number, held, n);
-            put(after, held, count);
-            return p < 0 ? NONE : held;
+        private void open(int place, int n, int first) {
+            region = place;
+            stop = place + n;
+            count = first;
+            limit = Math.min(first + MAX_ITEMS, ROOM);
+            fault = NONE;
         }
 
-        private void open(int level, byte[] from, int offset, int n) {
-            region = level * LEVEL_BYTES;
-            copy(from, offset, data, region, n);
-            stop = region + n;
-            joined = region + TAPE_ROOM;
-            count = level * LEVEL_ITEMS;
-            limit = count + MAX_ITEMS;
-            fault = NONE;
+        /** The array, standing nowhere, of the items that bytes hold one behind the other; NONE if they hold none such. */
+        int within(int i) {
+            int held = at(inside, i);
+            if (held != 0) return held;
+            held = at(level, i) < MAX_NESTED && count < ROOM ? readWithin(i) : NONE;
+            put(inside, i, held);
+            return held;
+        }
+
+        private int readWithin(int i) {
+            int held = count;
+            int joinedBefore = joined;
+            int deep = at(depth, i);
+            int p = at(content, i);
+            open(p, (int) numberOf(i), held + 1);
+            put(major, held, 4);
+            put(width, held, 0);
+            put(depth, held, deep);
+            put(level, held, at(level, i) + 1);
+            int n = 0;
+            for (; n <= MAX_LIST && p >= 0 && p < stop; n++) {
+                put(ordinal, count, n);
+                p = n < MAX_LIST ? readItem(p, held, deep + 1) : NONE;
+            }
+            putLong(number, held, n);
+            put(after, held, count);
+            if (p >= 0) return held;
+            count = held;
+            joined = joinedBefore;
+            return NONE;
         }
 
         private int bad(int p) {
@@ -2090,6 +2201,8 @@ public final class ItemJudge {
             count++;
             put(parent, i, within);
             put(depth, i, deep);
+            put(level, i, within < 0 ? 0 : at(level, within));
+            put(inside, i, 0);
             int m = at(major, i);
             if (m == 2 || m == 3) q = readString(i, q, m);
             if (m == 4 || m == 5) q = readList(i, q, m - 3, deep);
@@ -2177,6 +2290,7 @@ public final class ItemJudge {
                 }
                 if (k == most) return bad(q);
                 for (int half = 0; half < each; half++) {
+                    put(ordinal, count, k);
                     q = readItem(q, i, deep + 1);
                     if (q < 0) return NONE;
                 }
@@ -2187,109 +2301,169 @@ public final class ItemJudge {
 
     /**
      * Answers that have been found already, so that none is looked for twice: without them, rules that name others
-     * twice each would ask for a power of two. An old answer may be driven out by a new one.
+     * twice each would ask for a power of two. The room grows with what is kept; only in the greatest one may an old
+     * answer be driven out.
      */
     private static final class Memo {
-        static final int TYPE = 0;
-        static final int TAKEN = 1;
-        static final int WAYS = 2;
-        static final int PART = 3;
-        private static final int SIZE = 8192;
-        private static final int TRIES = 4;
-        private static final long LAST_STAMP = 1L << 23;
-        private static final long LAST_SPOT = (1L << 20) - 1;
+        static final int UNKNOWN = -2;
+        private static final int FIRST_ROOM = 1 << 11;
+        private static final int LAST_ROOM = 1 << 19;
+        private static final int TRIES = 64;
+        private static final int LAST_STAMP = 1 << 30;
 
-        private final long[] keys;
-        private final long[] values;
-        private final int[] stamps;
-        private int lastStamp;
+        private long[] answers;
+        private int kept;
+        private long stamp;
+        private long[] cells;
+        private int claimed;
+        private int cellStamp;
 
         Memo() {
-            keys = new long[SIZE];
-            values = new long[SIZE];
-            stamps = new int[MAX_NESTED + 1];
-            lastStamp = 0;
-            for (int level = 0; level <= MAX_NESTED; level++) renew(level);
+            answers = new long[FIRST_ROOM];
+            cells = new long[FIRST_ROOM];
+            stamp = 1;
         }
 
-        /** What was found for the items of a level holds no more. */
-        void renew(int level) {
-            lastStamp++;
-            put(stamps, level, lastStamp);
+        /** What was found holds no more: there are other RULES, or is another ITEM. */
+        void renew() {
+            stamp++;
+            kept = 0;
         }
 
-        /** Begins to count anew before the stamps run out; only between two calls. */
+        /** Begins to count cells anew before the stamps run out; only between two calls. */
         void rest() {
-            if (lastStamp < LAST_STAMP) return;
-            lastStamp = 0;
-            for (int i = 0; i < SIZE; i++) putLong(keys, i, 0);
-            for (int level = 0; level <= MAX_NESTED; level++) renew(level);
+            claimed = 0;
+            if (cellStamp < LAST_STAMP) return;
+            cellStamp = 0;
+            for (int i = 0; i < cells.length; i++) putLong(cells, i, 0);
         }
 
-        /** The key of what is asked: of which sort, of which node in which instance, of which item and where in it. */
-        long key(int sort, int n, int in, int item, int where) {
-            int level = item >= Items.FREE_NUMBERS ? 0 : item / Items.LEVEL_ITEMS;
-            // Numbers that stand nowhere count down from the greatest spot, far from those of items.
-            long spot = item >= Items.FREE_NUMBERS ? LAST_SPOT + Items.FREE_NUMBERS - item : (long) item << 10 | where;
-            return (((long) at(stamps, level) << 10 | n) << 7 | in) << 22 | (long) sort << 20 | spot;
+        /** What is asked: of a box or of choices, at which node, in which instance, of which item. */
+        static int key(boolean box, int n, int in, int item) {
+            return (box ? 1 << 30 : 0) | (n & 1023) << 20 | (in & 127) << 13 | item & 8191;
         }
 
-        /** Where the answer stands; NONE. */
-        int find(long key) {
-            int first = slot(key);
+        /** The answer, 0 or 1; UNKNOWN. */
+        int find(int key) {
+            int s = slot(key);
             for (int i = 0; i < TRIES; i++) {
-                int s = first + i & SIZE - 1;
-                if (longAt(keys, s) == key) return s;
+                long there = longAt(answers, s);
+                if (there >>> 32 != stamp) return UNKNOWN;
+                if ((there >>> 1 & Integer.MAX_VALUE) == key) return (int) there & 1;
+                s = s + 1 & answers.length - 1;
             }
-            return NONE;
+            return UNKNOWN;
         }
 
-        long answer(int s) {
-            return longAt(values, s);
+        void keep(int key, int answer) {
+            if (2 * kept > answers.length && answers.length < LAST_ROOM) grow();
+            place(stamp << 32 | (long) key << 1 | answer);
         }
 
-        void keep(long key, long value) {
-            int first = slot(key);
+        private void place(long entry) {
+            int first = slot((int) (entry >>> 1 & Integer.MAX_VALUE));
             int s = first;
             for (int i = 0; i < TRIES; i++) {
-                int t = first + i & SIZE - 1;
-                if (longAt(keys, t) == key || isPast(longAt(keys, t))) {
-                    s = t;
-                    break;
+                long there = longAt(answers, s);
+                if (there >>> 32 != stamp) {
+                    putLong(answers, s, entry);
+                    kept++;
+                    return;
                 }
+                if (there >>> 1 == entry >>> 1) {
+                    putLong(answers, s, entry);
+                    return;
+                }
+                s = s + 1 & answers.length - 1;
             }
-            putLong(keys, s, key);
-            putLong(values, s, value);
+            putLong(answers, first, entry);
         }
 
-        private boolean isPast(long key) {
-            long stamp = key >>> 39;
-            for (int level = 0; level <= MAX_NESTED; level++) {
-                if (at(stamps, level) == stamp) return false;
+        private void grow() {
+            long[] old = answers;
+            answers = new long[2 * old.length];
+            kept = 0;
+            for (int i = 0; i < old.length; i++) {
+                if (old[i] >>> 32 == stamp) place(old[i]);
             }
-            return true;
         }
 
-        private static int slot(long key) {
-            return (int) ((key * 0x9E3779B97F4A7C15L) >>> 51) & SIZE - 1;
+        private int slot(int key) {
+            return (int) (key * 0x9E3779B97F4A7C15L >>> 40) & answers.length - 1;
+        }
+
+        /** The first of so many cells, that are free. */
+        int claim(int size) {
+            int first = claimed;
+            claimed += size;
+            if (claimed > cells.length) {
+                long[] old = cells;
+                cells = new long[2 * claimed];
+                System.arraycopy(old, 0, cells, 0, old.length);
+            }
+            return first;
+        }
+
+        void release(int first) {
+            claimed = first;
+        }
+
+        /** A stamp for cells in which nothing is known yet. */
+        int newStamp() {
+            cellStamp++;
+            return cellStamp;
+        }
+
+        int cell(int i, int stampThere) {
+            long there = longAt(cells, i);
+            return there >>> 32 == stampThere ? (int) there : UNKNOWN;
+        }
+
+        void putCell(int i, int stampThere, int value) {
+            putLong(cells, i, (long) stampThere << 32 | value & 0xffffffffL);
         }
     }
 
-    /** What is told of an item by one token, or by a range or a comparison of two. */
+    /**
+     * What is told of an item by one token, or by a range or a comparison of two; and which numbers of major 0 are as a
+     * type, 64 of them at once: a mask has a bit for each of a block. Sizes and places of bits are such numbers.
+     */
     private static final class Leaves {
+        private static final int MAX_CALLS = 100;
+        private static final int BLOCK = 64;
+        private static final int BLOCKS = 512;
+        private static final long BEYOND = 1L << 40;
+        private static final long SIZES = 511;
+
+        private Rules rules;
         private Tokens tokens;
         private Tree tree;
+        private Instances instances;
         private final Items items;
+        private final long[] firstMask;
+        private final int[] firstStamp;
+        private final long[] lastMask;
+        private final int[] lastStamp;
+        private int stamp;
 
         Leaves(Rules r, Items all) {
+            items = all;
+            firstMask = new long[Instances.SPOTS];
+            firstStamp = new int[Instances.SPOTS];
+            lastMask = new long[Instances.SPOTS];
+            lastStamp = new int[Instances.SPOTS];
+            rules = r;
             tokens = r.tokens;
             tree = r.tree;
-            items = all;
+            instances = r.instances;
         }
 
         void obey(Rules r) {
+            rules = r;
             tokens = r.tokens;
             tree = r.tree;
+            instances = r.instances;
+            stamp++;
         }
 
         boolean isSo(int n, int item) {
@@ -2362,25 +2536,177 @@ public final class ItemJudge {
             if (n >= 24 && n <= 31) return n == 25 && w == 2 || n == 26 && w == 4 || n == 27 && w == 8;
             return w < 2 && items.numberOf(item) == n;
         }
+
+        /** Whether the item is of a size that is as the type. */
+        boolean hasSize(int type, int in, int item) {
+            int m = items.majorOf(item);
+            long n = items.numberOf(item);
+            if (m == 2 || m == 3) return (mask(type, in, (int) n / BLOCK, 0) >>> (int) n % BLOCK & 1) == 1;
+            if (m != 0) return false;
+            int least = 0;
+            for (; least < 8; least++) {
+                if (n >>> 8 * least == 0) break;
+            }
+            return (mask(type, in, 0, 0) & SIZES) >>> least != 0;
+        }
+
+        /** Whether the place of each bit that is set in the item is as the type. */
+        boolean hasBits(int type, int in, int item) {
+            int m = items.majorOf(item);
+            long n = items.numberOf(item);
+            if (m == 0) return (n & ~mask(type, in, 0, 0)) == 0;
+            if (m != 2) return false;
+            for (int from = 0; from < n; from += 8) {
+                long bits = 0;
+                for (int k = 0; k < 8 && from + k < n; k++) bits |= (long) items.byteOf(item, from + k) << 8 * k;
+                if (bits != 0 && (bits & ~mask(type, in, from / 8, 0)) != 0) return false;
+            }
+            return true;
+        }
+
+        /** The numbers of a block that are as one of the choices from a node on. */
+        private long mask(int n, int in, int block, int calls) {
+            long all = 0;
+            int c = n;
+            for (int i = 0; i < MAX_TOKENS && c >= 0 && calls < MAX_CALLS; i++) {
+                all |= maskOf(c, in, block, calls);
+                c = tree.nextOf(c);
+            }
+            return all;
+        }
+
+        private long maskOf(int n, int in, int block, int calls) {
+            switch (tree.kindOf(n)) {
+                case N_NAME:
+                case N_UNWRAP:
+                case N_AND_NAME:
+                case N_NAMED_ENTRY: return maskNamed(n, in, block, calls + 1);
+                case N_PAREN:
+                case N_AND_GROUP:
+                case N_CHOICE:
+                case N_ENTRY:
+                case N_GROUP_ENTRY: return mask(tree.firstOf(n), in, block, calls + 1);
+                case N_CONTROL:
+                    long left = mask(tree.firstOf(n), in, block, calls + 1);
+                    return left == 0 ? 0 : left & maskControl(n, in, block, calls + 1);
+                case N_MAJOR: return longAt(tokens.high, at(tree.token, n)) == 0 ? -1 : 0;
+                case N_ANY: return -1;
+                case N_NUMBER:
+                case N_RANGE: return maskLeaf(n, block);
+                default: return 0;
+            }
+        }
+
+        /** What NAMES lead to is kept for block 0, which sizes and bits of numbers ask for, and for the latest other one. */
+        private long maskNamed(int n, int in, int block, int calls) {
+            instances.follow(rules, n, in);
+            int head = instances.head;
+            int headIn = instances.headIn;
+            int spot = instances.spot;
+            int now = stamp * BLOCKS + block;
+            if (head < 0) return 0;
+            if (at(block == 0 ? firstStamp : lastStamp, spot) == now) return longAt(block == 0 ? firstMask : lastMask, spot);
+            long found = mask(head, headIn, block, calls);
+            put(block == 0 ? firstStamp : lastStamp, spot, now);
+            putLong(block == 0 ? firstMask : lastMask, spot, found);
+            return found;
+        }
+
+        /** The numbers of a block of which a CONTROL says nothing against. */
+        private long maskControl(int n, int in, int block, int calls) {
+            int right = tree.secondOf(n);
+            long value = numberOf(right);
+            switch (at(tree.third, n)) {
+                case C_DEFAULT: return -1;
+                case C_AND: return mask(right, in, block, calls);
+                case C_SIZE: return sized(mask(right, in, 0, calls) & SIZES, block);
+                case C_BITS: return withBits(mask(right, in, 0, calls), block);
+                case C_EQ: return maskLeaf(right, block);
+                case C_NE: return ~maskLeaf(right, block);
+                case C_LT: return range(0, value - 1, block);
+                case C_LE: return range(0, value, block);
+                case C_GT: return range(value + 1, BEYOND, block);
+                case C_GE: return range(value, BEYOND, block);
+                default: return 0;
+            }
+        }
+
+        /** The numbers of a block that are below 256^n for one of these n: 0 needs none, those up to 255 one, all others two. */
+        private static long sized(long sizes, int block) {
+            int least = block * BLOCK < 256 ? 1 : 2;
+            long most = sizes >>> least != 0 ? -1 : 0;
+            return block == 0 && sizes != 0 ? most | 1 : most;
+        }
+
+        /** The numbers of a block whose bits stand at these places alone. */
+        private static long withBits(long places, int block) {
+            long all = 0;
+            for (int i = 0; i < BLOCK; i++) {
+                if ((block * BLOCK + i & ~places) == 0) all |= 1L << i;
+            }
+            return all;
+        }
+
+        private long maskLeaf(int n, int block) {
+            int k = tree.kindOf(n);
+            if (k == N_NUMBER) return range(numberOf(n), numberOf(n), block);
+            if (k != N_RANGE) return 0;
+            long to = numberOf(tree.secondOf(n));
+            return range(numberOf(tree.firstOf(n)), at(tree.third, n) == 1 ? to - 1 : to, block);
+        }
+
+        /** The number that a node is; any one below 0 is -1, one that is above all sizes and places is BEYOND. */
+        private long numberOf(int n) {
+            int tok = at(tree.token, n);
+            long value = longAt(tokens.low, tok);
+            if (longAt(tokens.high, tok) == 1) return -1;
+            return below(BEYOND, value) ? BEYOND : value;
+        }
+
+        /** The numbers of a block from one to another. */
+        private static long range(long first, long last, int block) {
+            long from = Math.max(first - (long) block * BLOCK, 0);
+            long to = Math.min(last - (long) block * BLOCK, BLOCK - 1);
+            return from > to ? 0 : -1L >>> (int) (BLOCK - 1 - to + from) << (int) from;
+        }
     }
 
     /**
-     * Tells whether an item is as a type says. NAMES, ( ), / and CONTROLS of one item are gone through with rows of
-     * what is still to do, so that only what is within the item goes deeper.
+     * Tells whether an item is as a type says. What is begun and not ended stands in a row of frames, so that no call
+     * calls itself, however deep types, groups and items lie in one another.
      */
     private static final class Judge {
         private static final int NO = 0;
         private static final int YES = 1;
-        private static final int GO = 2;
+        private static final int GO = Memo.UNKNOWN;
         private static final int ELSE = 0;
         private static final int KEEP = 1;
         private static final int CHECK = 2;
-        private static final int TO_DO_ROOM = 2048;
-        private static final int MAX_CALLS = 220;
-        private static final int MANY = 1000000;
+        private static final int ARRAY = 3;
+        private static final int GROUP = 4;
+        private static final int MAP = 5;
+        private static final int FITS = 6;
+
+        // The fields of a frame. Those from ENTRY on are for groups: where its entry stands, where the group has come to.
+        private static final int WHAT = 0;
+        private static final int NODE = 1;
+        private static final int IN = 2;
+        private static final int ITEM = 3;
+        private static final int ENTRY = 4;
+        private static final int ORIGIN = 5;
+        private static final int ROOT = 6;
+        private static final int SPOT = 7;
+        private static final int TIMES = 8;
+        private static final int FOUND = 9;
+        private static final int FRAME = 10;
+        private static final int FRAMES = 2048;
+
+        private static final long MANY_STEPS = 1L << 50;
+        private static final int MAX_CALLS = 2 * MAX_PATH;
         // Six pairs can be given in six steps: what can be reached in eight, can in any more.
         private static final int ENOUGH_TIMES = 8;
         private static final int GIVEN_SETS = 64;
+        private static final int FITS_ROOM = (MAX_DEPTH + 1) * MAX_ENTRIES;
 
         private Rules rules;
         private Tree tree;
@@ -2388,16 +2714,15 @@ public final class ItemJudge {
         private final Items items;
         private final Memo memo;
         private final Leaves leaves;
-        private final int[] toDo;
-        private final int[] toDoNode;
-        private final int[] toDoIn;
-        private final int[] toDoItem;
+        private final int[] frames;
         private int top;
         private int goNode;
         private int goIn;
         private int goItem;
-        private int group;
-        private int groupIn;
+        private final int[] fits;
+        private int fitted;
+        private final long[] wayKnown;
+        private final long[] wayEnds;
 
         Judge(Rules r, Items all, Memo known) {
             rules = r;
@@ -2406,10 +2731,10 @@ public final class ItemJudge {
             items = all;
             memo = known;
             leaves = new Leaves(r, all);
-            toDo = new int[TO_DO_ROOM];
-            toDoNode = new int[TO_DO_ROOM];
-            toDoIn = new int[TO_DO_ROOM];
-            toDoItem = new int[TO_DO_ROOM];
+            frames = new int[FRAMES * FRAME];
+            fits = new int[FITS_ROOM];
+            wayKnown = new long[MAX_ENTRIES];
+            wayEnds = new long[MAX_ENTRIES * GIVEN_SETS];
         }
 
         void obey(Rules r) {
@@ -2419,24 +2744,17 @@ public final class ItemJudge {
             leaves.obey(r);
         }
 
+        /** Each step enters a node or takes an answer; as each answer is kept, there are far less of them than the bound. */
         boolean says(int rule, int item) {
             memo.rest();
             top = 0;
-            return isAs(at(rules.chain, rule), 0, item, 0);
-        }
-
-        /** Whether an item is as one of the choices from a node on. */
-        private boolean isAs(int n, int in, int item, int calls) {
-            if (calls > MAX_CALLS) return false;
-            int base = top;
-            goTo(n, in, item);
-            int answer = GO;
-            for (int step = 0; step < MANY; step++) {
-                if (answer == GO) answer = enter(goNode, goIn, goItem, calls);
-                else if (top <= base) return answer == YES;
-                else answer = leave(answer, calls);
+            fitted = 0;
+            int answer = goTo(at(rules.chain, rule), 0, item);
+            for (long step = 0; step < MANY_STEPS; step++) {
+                if (answer == GO) answer = enter(goNode, goIn, goItem);
+                else if (top <= 0) return answer == YES;
+                else answer = leave(top - 1, answer);
             }
-            top = base;
             return false;
         }
 
@@ -2447,199 +2765,286 @@ public final class ItemJudge {
             return GO;
         }
 
-        private void push(int what, int n, int in, int item) {
-            put(toDo, top, what);
-            put(toDoNode, top, n);
-            put(toDoIn, top, in);
-            put(toDoItem, top, item);
-            top++;
+        private int look(int f, int field) {
+            return at(frames, f * FRAME + field);
         }
 
-        private int enter(int n, int in, int item, int calls) {
+        private void set(int f, int field, int value) {
+            put(frames, f * FRAME + field, value);
+        }
+
+        private int push(int what, int n, int in, int item) {
+            int f = top;
+            top++;
+            set(f, WHAT, what);
+            set(f, NODE, n);
+            set(f, IN, in);
+            set(f, ITEM, item);
+            return f;
+        }
+
+        private int enter(int n, int in, int item) {
             if (n < 0) return NO;
             if (tree.nextOf(n) >= 0) push(ELSE, tree.nextOf(n), in, item);
             switch (tree.kindOf(n)) {
-                case N_NAME: return enterName(n, in, item);
+                case N_NAME:
+                case N_UNWRAP:
                 case N_AND_NAME:
-                case N_NAMED_ENTRY:
-                    findGroup(n, in);
-                    return goTo(group, groupIn, item);
+                case N_NAMED_ENTRY: return enterNamed(n, in, item);
                 case N_AND_GROUP:
                 case N_PAREN:
                 case N_CHOICE:
                 case N_ENTRY:
                 case N_GROUP_ENTRY: return goTo(tree.firstOf(n), in, item);
-                case N_UNWRAP:
-                    instances.unwrap(rules, n, in);
-                    return goTo(tree.firstOf(instances.box), instances.boxIn, item);
                 case N_TAG: return leaves.isTag(n, item) ? goTo(tree.firstOf(n), in, item + 1) : NO;
                 case N_CONTROL:
                     push(CHECK, n, in, item);
                     return goTo(tree.firstOf(n), in, item);
-                case N_ARRAY: return isArray(tree.firstOf(n), in, item, calls) ? YES : NO;
-                case N_MAP: return isMap(tree.firstOf(n), in, item, calls) ? YES : NO;
+                case N_ARRAY: return enterArray(n, in, item);
+                case N_MAP: return enterMap(n, in, item);
                 default: return leaves.isSo(n, item) ? YES : NO;
             }
         }
 
-        private int enterName(int n, int in, int item) {
-            int to = tree.secondOf(n);
-            int node = NONE;
-            int nodeIn = 0;
-            if (to >= TO_PARAM) {
-                node = tree.firstOf(instances.argumentOf(in, to - TO_PARAM));
-                nodeIn = instances.argumentPlace(in, to - TO_PARAM);
-            } else if (rules.isRule(to)) {
-                node = at(rules.chain, to);
-                nodeIn = instances.lead(n, in);
+        private int enterNamed(int n, int in, int item) {
+            instances.follow(rules, n, in);
+            int head = instances.head;
+            int headIn = instances.headIn;
+            if (head < 0) return NO;
+            if (head >= rules.ownNode) {
+                int known = memo.find(Memo.key(false, head, headIn, item));
+                if (known != GO) return known;
+                push(KEEP, head, headIn, item);
             }
-            if (node < 0) return NO;
-            int known = memo.find(memo.key(Memo.TYPE, node, nodeIn, item, 0));
-            if (known >= 0) return memo.answer(known) == 1 ? YES : NO;
-            push(KEEP, node, nodeIn, item);
-            return goTo(node, nodeIn, item);
+            return goTo(head, headIn, item);
         }
 
-        /** Takes the last of what is to do, now that the answer of what was asked before is there. */
-        private int leave(int answer, int calls) {
+        /** Takes the last frame, now that the answer of what was asked for it is there. */
+        private int leave(int f, int answer) {
+            int what = look(f, WHAT);
+            if (what == GROUP) return gained(f, answer);
+            if (what == FITS) return answered(f, answer);
+            int n = look(f, NODE);
+            int in = look(f, IN);
+            int item = look(f, ITEM);
             top--;
-            int n = at(toDoNode, top);
-            int in = at(toDoIn, top);
-            int item = at(toDoItem, top);
-            switch (at(toDo, top)) {
+            switch (what) {
                 case ELSE: return answer == YES ? YES : goTo(n, in, item);
-                case KEEP:
-                    memo.keep(memo.key(Memo.TYPE, n, in, item, 0), answer);
-                    return answer;
-                default: return answer == YES ? check(n, in, item, calls) : NO;
+                case KEEP: return kept(false, f, answer);
+                case ARRAY:
+                    memo.release(look(f, SPOT));
+                    return kept(true, f, answer == items.afterOf(item) ? YES : NO);
+                case MAP:
+                    fitted = look(f, SPOT);
+                    return kept(true, f, isGiven(n, item) ? YES : NO);
+                default: return answer == YES ? check(n, in, item) : NO;
             }
+        }
+
+        private int kept(boolean box, int f, int answer) {
+            memo.keep(Memo.key(box, look(f, NODE), look(f, IN), look(f, ITEM)), answer);
+            return answer;
         }
 
         /** What a CONTROL asks of an item that is as the type before it. */
-        private int check(int n, int in, int item, int calls) {
+        private int check(int n, int in, int item) {
             int which = at(tree.third, n);
             int right = tree.secondOf(n);
             switch (which) {
                 case C_DEFAULT: return YES;
                 case C_AND: return goTo(right, in, item);
-                case C_SIZE: return hasSize(right, in, item, calls) ? YES : NO;
-                case C_BITS: return hasBits(right, in, item, calls) ? YES : NO;
+                case C_SIZE: return leaves.hasSize(right, in, item) ? YES : NO;
+                case C_BITS: return leaves.hasBits(right, in, item) ? YES : NO;
                 case C_CBOR:
-                case C_CBORSEQ: return holds(n, in, item, calls) ? YES : NO;
+                case C_CBORSEQ: return enterHeld(which == C_CBOR, right, in, item);
                 case C_EQ: return leaves.isSo(right, item) ? YES : NO;
                 case C_NE: return leaves.isSo(right, item) ? NO : YES;
                 default: return leaves.compares(which, right, item) ? YES : NO;
             }
         }
 
-        private boolean hasSize(int type, int in, int item, int calls) {
-            int m = items.majorOf(item);
-            long n = items.numberOf(item);
-            if (m == 2 || m == 3) return isAs(type, in, Items.FREE_NUMBERS + (int) n, calls + 1);
-            if (m != 0) return false;
-            for (int size = 0; size <= 8; size++) {
-                boolean small = size == 8 || n >>> 8 * size == 0;
-                if (small && isAs(type, in, Items.FREE_NUMBERS + size, calls + 1)) return true;
-            }
-            return false;
+        /** The one item that bytes hold, or the array of all, as a type. */
+        private int enterHeld(boolean one, int type, int in, int item) {
+            int held = items.majorOf(item) == 2 ? items.within(item) : NONE;
+            if (held < 0 || one && items.numberOf(held) != 1) return NO;
+            return goTo(type, in, one ? held + 1 : held);
         }
 
-        private boolean hasBits(int type, int in, int item, int calls) {
-            int m = items.majorOf(item);
-            long n = items.numberOf(item);
-            if (m != 0 && m != 2) return false;
-            int bits = m == 0 ? 64 : 8 * (int) n;
-            for (int bit = 0; bit < bits; bit++) {
-                long from = m == 0 ? n >>> bit : items.byteOf(item, bit >> 3) >> (bit & 7);
-                if ((from & 1) == 1 && !isAs(type, in, Items.FREE_NUMBERS + bit, calls + 1)) return false;
-            }
-            return true;
+        private int enterArray(int n, int in, int item) {
+            if (items.majorOf(item) != 4) return NO;
+            int known = memo.find(Memo.key(true, n, in, item));
+            if (known != GO) return known;
+            int f = push(ARRAY, n, in, item);
+            set(f, SPOT, memo.claim(at(tree.weight, n) * ((int) items.numberOf(item) + 1)));
+            set(f, FOUND, memo.newStamp());
+            pushGroup(GROUP, f, 0, tree.firstOf(n), in, item + 1);
+            return goOn();
         }
 
-        /** Whether bytes hold an item, or items, as cbor or cborseq asks. */
-        private boolean holds(int n, int in, int item, int calls) {
-            if (items.majorOf(item) != 2) return false;
-            long key = memo.key(Memo.PART, n, in, item, 0);
-            int known = memo.find(key);
-            if (known >= 0) return memo.answer(known) == 1;
-            boolean one = at(tree.third, n) == C_CBOR;
-            int held = items.readWithin(item, one);
-            boolean yes = false;
-            if (held >= 0) {
-                memo.renew(items.levelOf(held));
-                yes = isAs(tree.secondOf(n), in, held, calls + 1);
-            }
-            memo.keep(key, yes ? 1 : 0);
-            return yes;
+        private void pushGroup(int what, int root, int origin, int choices, int in, int item) {
+            int g = push(what, choices, in, item);
+            set(g, ROOT, root);
+            set(g, ORIGIN, origin);
+            beginChoice(g, choices);
         }
 
-        /** Sets group and groupIn: the choices that an entry or & NAME means, and the instance in which they are read. */
-        private void findGroup(int n, int in) {
-            int k = tree.kindOf(n);
-            group = tree.firstOf(n);
-            groupIn = in;
-            if (k == N_GROUP_ENTRY || k == N_ENTRY) return;
-            int name = k == N_AND_NAME ? n : group;
-            if (tree.kindOf(name) == N_UNWRAP) {
-                instances.unwrap(rules, name, in);
-                group = tree.firstOf(instances.box);
-                groupIn = instances.boxIn;
+        private void beginChoice(int g, int choice) {
+            set(g, NODE, choice);
+            set(g, SPOT, look(g, ITEM));
+            beginEntry(g, tree.firstOf(choice));
+        }
+
+        private void beginEntry(int g, int entry) {
+            set(g, ENTRY, entry);
+            set(g, TIMES, 0);
+            set(g, FOUND, 0);
+        }
+
+        /** The group that an entry means, on top of the frames. */
+        private void pushWithin(int what, int g, int entry, int item) {
+            int origin = look(g, ORIGIN) + at(tree.place, entry) + 1;
+            int in = look(g, IN);
+            if (tree.kindOf(entry) == N_GROUP_ENTRY) {
+                pushGroup(what, look(g, ROOT), origin, tree.firstOf(entry), in, item);
                 return;
             }
-            group = at(rules.chain, tree.secondOf(name));
-            groupIn = instances.lead(name, in);
+            instances.follow(rules, entry, in);
+            pushGroup(what, look(g, ROOT), origin, instances.head, instances.headIn, item);
         }
 
-        private boolean isArray(int choices, int in, int item, int calls) {
-            if (items.majorOf(item) != 4) return false;
-            return taken(choices, in, item, item + 1, calls + 1) == items.afterOf(item);
-        }
-
-        /** Before which item the group ends that is read from an item of an array on; NONE if it takes nothing so. */
-        private int taken(int choices, int in, int list, int from, int calls) {
-            if (calls > MAX_CALLS || choices < 0) return NONE;
-            long key = memo.key(Memo.TAKEN, choices, in, list, from);
-            int known = memo.find(key);
-            if (known >= 0) return (int) memo.answer(known);
-            int end = NONE;
-            int c = choices;
-            for (int i = 0; i < MAX_TOKENS && c >= 0 && end < 0; i++) {
-                end = from;
-                int e = tree.firstOf(c);
-                for (int j = 0; j < MAX_TOKENS && e >= 0 && end >= 0; j++) {
-                    int least = rules.least(e);
-                    int most = rules.most(e);
-                    boolean one = tree.kindOf(e) == N_ENTRY;
-                    findGroup(e, in);
-                    int within = group;
-                    int withinIn = groupIn;
-                    int times = 0;
-                    boolean more = least <= most;
-                    for (int k = 0; k <= MAX_LIST && more && times < most; k++) {
-                        int next = one ? takenItem(e, in, list, end, calls) : taken(within, withinIn, list, end, calls + 1);
-                        if (next == end) times = Math.max(times, least);
-                        else if (next > end) times++;
-                        more = next > end;
-                        end = Math.max(end, next);
-                    }
-                    if (least > most || times < least) end = NONE;
-                    e = tree.nextOf(e);
+        /**
+         * Goes on with the groups of an array on top of the frames, until an item is to be looked at or one has ended: its
+         * answer is before which item it ends, or NONE if none of its choices takes.
+         */
+        private int goOn() {
+            for (int i = 0; i < ENDLESS; i++) {
+                int g = top - 1;
+                int entry = look(g, ENTRY);
+                if (look(g, NODE) < 0 || entry < 0) {
+                    top--;
+                    return look(g, NODE) < 0 ? NONE : look(g, SPOT);
                 }
-                c = tree.nextOf(c);
+                if (look(g, TIMES) >= rules.most(entry) || rules.least(entry) > rules.most(entry)) {
+                    endEntry(g, entry);
+                    continue;
+                }
+                int next = known(g, entry);
+                if (next != GO) take(g, entry, next);
+                else if (tree.kindOf(entry) == N_ENTRY) return goTo(tree.firstOf(entry), look(g, IN), look(g, SPOT));
+                else pushWithin(GROUP, g, entry, look(g, SPOT));
             }
-            memo.keep(key, end);
-            return end;
+            return NONE;
         }
 
-        private int takenItem(int entry, int in, int list, int from, int calls) {
-            if (from >= items.afterOf(list)) return NONE;
-            return isAs(tree.firstOf(entry), in, from, calls + 1) ? items.afterOf(from) : NONE;
+        /** Before which item an entry ends that is tried once more, if that is known. */
+        private int known(int g, int entry) {
+            int list = look(look(g, ROOT), ITEM);
+            if (tree.kindOf(entry) == N_ENTRY && look(g, SPOT) >= items.afterOf(list)) return NONE;
+            return memo.cell(cellOf(g, entry), look(look(g, ROOT), FOUND));
         }
 
-        private boolean isMap(int choices, int in, int item, int calls) {
-            if (items.majorOf(item) != 5 || items.numberOf(item) > MAX_PAIRS) return false;
-            int all = (1 << (int) items.numberOf(item)) - 1;
-            return (ways(choices, in, item, 0, calls + 1) >>> all & 1) == 1;
+        private int cellOf(int g, int entry) {
+            int root = look(g, ROOT);
+            int list = look(root, ITEM);
+            int row = look(g, ORIGIN) + at(tree.place, entry);
+            return look(root, SPOT) + row * ((int) items.numberOf(list) + 1) + items.placeIn(list, look(g, SPOT));
+        }
+
+        private int gained(int g, int answer) {
+            int entry = look(g, ENTRY);
+            int next = answer;
+            if (tree.kindOf(entry) == N_ENTRY) next = answer == YES ? items.afterOf(look(g, SPOT)) : NONE;
+            memo.putCell(cellOf(g, entry), look(look(g, ROOT), FOUND), next);
+            take(g, entry, next);
+            return goOn();
+        }
+
+        /** What takes nothing is not tried again, and counts as often as it must. */
+        private void take(int g, int entry, int next) {
+            int times = look(g, TIMES);
+            if (next > look(g, SPOT)) {
+                set(g, TIMES, times + 1);
+                set(g, SPOT, next);
+                return;
+            }
+            if (next == look(g, SPOT)) set(g, TIMES, Math.max(times, rules.least(entry)));
+            endEntry(g, entry);
+        }
+
+        private void endEntry(int g, int entry) {
+            boolean often = look(g, TIMES) >= rules.least(entry) && rules.least(entry) <= rules.most(entry);
+            if (often) beginEntry(g, tree.nextOf(entry));
+            else beginChoice(g, tree.nextOf(look(g, NODE)));
+        }
+
+        private int enterMap(int n, int in, int item) {
+            if (items.majorOf(item) != 5 || items.numberOf(item) > MAX_PAIRS) return NO;
+            int known = memo.find(Memo.key(true, n, in, item));
+            if (known != GO) return known;
+            int f = push(MAP, n, in, item);
+            set(f, SPOT, fitted);
+            fitted += at(tree.weight, n);
+            pushGroup(FITS, f, 0, tree.firstOf(n), in, item);
+            return goFit();
+        }
+
+        /**
+         * Goes on with the groups of a map on top of the frames: for each entry with a key it is found which pairs fit it.
+         * TIMES counts what has been asked, twice a pair: whether its key, whether its value is so; SPOT is its key.
+         */
+        private int goFit() {
+            for (int i = 0; i < ENDLESS; i++) {
+                int g = top - 1;
+                int entry = look(g, ENTRY);
+                if (look(g, NODE) < 0) {
+                    top--;
+                    if (look(top - 1, WHAT) != FITS) return YES;
+                } else if (entry < 0) {
+                    beginChoice(g, tree.nextOf(look(g, NODE)));
+                } else if (tree.kindOf(entry) != N_ENTRY) {
+                    beginEntry(g, tree.nextOf(entry));
+                    pushWithin(FITS, g, entry, look(g, ITEM));
+                } else if (asksMore(g, entry)) {
+                    return ask(g, entry);
+                } else {
+                    put(fits, look(look(g, ROOT), SPOT) + look(g, ORIGIN) + at(tree.place, entry), look(g, FOUND));
+                    beginEntry(g, tree.nextOf(entry));
+                }
+            }
+            return YES;
+        }
+
+        private boolean asksMore(int g, int entry) {
+            return tree.secondOf(entry) >= 0 && look(g, TIMES) < 2 * items.numberOf(look(g, ITEM));
+        }
+
+        private int ask(int g, int entry) {
+            int times = look(g, TIMES);
+            if (times == 0) set(g, SPOT, look(g, ITEM) + 1);
+            int key = look(g, SPOT);
+            boolean forKey = times % 2 == 0;
+            return goTo(forKey ? tree.secondOf(entry) : tree.firstOf(entry), look(g, IN), forKey ? key : items.afterOf(key));
+        }
+
+        /** What is found: the pairs whose key is as the entry's key, and 64 times those whose value is as its type, too. */
+        private int answered(int g, int answer) {
+            int times = look(g, TIMES);
+            int bit = 1 << times / 2;
+            if (answer == YES) set(g, FOUND, look(g, FOUND) | (times % 2 == 0 ? bit : GIVEN_SETS * bit));
+            if (answer == YES && times % 2 == 0) {
+                set(g, TIMES, times + 1);
+                return goFit();
+            }
+            set(g, TIMES, times - times % 2 + 2);
+            set(g, SPOT, items.afterOf(items.afterOf(look(g, SPOT))));
+            return goFit();
+        }
+
+        /** Whether all pairs of a map can be given to entries, now that it is known which fit. */
+        private boolean isGiven(int n, int map) {
+            for (int i = 0; i < at(tree.weight, n); i++) putLong(wayKnown, i, 0);
+            int all = (1 << (int) items.numberOf(map)) - 1;
+            return (ways(tree.firstOf(n), 0, 0, 0) >>> all & 1) == 1;
         }
 
         /**
@@ -2647,53 +3052,61 @@ public final class ItemJudge {
          * That what a CUT has seized is given to none behind it needs no more than this: as all pairs must be given,
          * those must have been given when their CUT's entry is gone through.
          */
-        private long ways(int choices, int in, int map, int given, int calls) {
-            if (calls > MAX_CALLS || choices < 0) return 0;
-            long key = memo.key(Memo.WAYS, choices, in, map, given);
-            int known = memo.find(key);
-            if (known >= 0) return memo.answer(known);
+        private long ways(int choices, int origin, int given, int calls) {
             long all = 0;
             int c = choices;
-            for (int i = 0; i < MAX_TOKENS && c >= 0; i++) {
+            for (int i = 0; i < MAX_TOKENS && c >= 0 && calls < MAX_CALLS; i++) {
                 long sets = 1L << given;
                 int e = tree.firstOf(c);
                 for (int j = 0; j < MAX_TOKENS && e >= 0 && sets != 0; j++) {
-                    int least = rules.least(e);
-                    int most = rules.most(e);
-                    boolean one = tree.kindOf(e) == N_ENTRY;
-                    findGroup(e, in);
-                    int within = group;
-                    int withinIn = groupIn;
-                    if (least > most) sets = 0;
-                    else if (one) sets = giveTo(e, in, map, sets, calls);
-                    else {
-                        long step = sets;
-                        sets = least == 0 ? sets : 0;
-                        for (int k = 1; k <= Math.min(most, ENOUGH_TIMES) && step != 0; k++) {
-                            long next = 0;
-                            for (int s = 0; s < GIVEN_SETS; s++) {
-                                if ((step >>> s & 1) == 1) next |= ways(within, withinIn, map, s, calls + 1);
-                            }
-                            step = next;
-                            if (k >= Math.min(least, ENOUGH_TIMES)) sets |= step;
-                        }
-                    }
+                    int spot = origin + at(tree.place, e);
+                    if (rules.least(e) > rules.most(e)) sets = 0;
+                    else if (tree.kindOf(e) == N_ENTRY) sets = giveTo(e, at(fits, fitted + spot), sets);
+                    else sets = throughGroup(e, spot, sets, calls);
                     e = tree.nextOf(e);
                 }
                 all |= sets;
                 c = tree.nextOf(c);
             }
-            memo.keep(key, all);
             return all;
         }
 
+        /** Goes through an entry that is a group, as often as its OCCUR lets, from each of some sets. */
+        private long throughGroup(int entry, int spot, long sets, int calls) {
+            int least = Math.min(rules.least(entry), ENOUGH_TIMES);
+            int most = Math.min(rules.most(entry), ENOUGH_TIMES);
+            long all = least == 0 ? sets : 0;
+            long step = sets;
+            for (int times = 1; times <= most && step != 0; times++) {
+                long next = 0;
+                for (int s = 0; s < GIVEN_SETS; s++) {
+                    if ((step >>> s & 1) == 1) next |= waysWithin(entry, spot, s, calls);
+                }
+                step = next;
+                if (times >= least) all |= step;
+            }
+            return all;
+        }
+
+        private long waysWithin(int entry, int spot, int given, int calls) {
+            if ((longAt(wayKnown, spot) >>> given & 1) == 1) return longAt(wayEnds, spot * GIVEN_SETS + given);
+            int choices = tree.firstOf(entry);
+            if (tree.kindOf(entry) == N_NAMED_ENTRY) {
+                instances.follow(rules, entry, 0);
+                choices = instances.head;
+            }
+            long ends = ways(choices, spot + 1, given, calls + 1);
+            putLong(wayKnown, spot, longAt(wayKnown, spot) | 1L << given);
+            putLong(wayEnds, spot * GIVEN_SETS + given, ends);
+            return ends;
+        }
+
         /** Goes through an entry of one type with each set of pairs that can have been given before it. */
-        private long giveTo(int entry, int in, int map, long sets, int calls) {
+        private long giveTo(int entry, int found, long sets) {
             int least = rules.least(entry);
             if (tree.secondOf(entry) < 0) return least == 0 ? sets : 0;
-            int fits = fitting(entry, in, map, calls);
-            int keyed = fits & GIVEN_SETS - 1;
-            int valued = fits / GIVEN_SETS;
+            int keyed = found & GIVEN_SETS - 1;
+            int valued = found / GIVEN_SETS;
             boolean cut = at(tree.mark, entry) == 1;
             long all = 0;
             for (int s = 0; s < GIVEN_SETS; s++) {
@@ -2710,25 +3123,6 @@ public final class ItemJudge {
                 }
             }
             return all;
-        }
-
-        /** The pairs whose key is as the entry's key, and 64 times those whose value is as its type, too. */
-        private int fitting(int entry, int in, int map, int calls) {
-            long memoKey = memo.key(Memo.PART, entry, in, map, 0);
-            int known = memo.find(memoKey);
-            if (known >= 0) return (int) memo.answer(known);
-            int fits = 0;
-            int key = map + 1;
-            for (int i = 0; i < MAX_PAIRS && key < items.afterOf(map); i++) {
-                int value = items.afterOf(key);
-                if (isAs(tree.secondOf(entry), in, key, calls + 1)) {
-                    fits |= 1 << i;
-                    if (isAs(tree.firstOf(entry), in, value, calls + 1)) fits |= GIVEN_SETS << i;
-                }
-                key = items.afterOf(value);
-            }
-            memo.keep(memoKey, fits);
-            return fits;
         }
     }
 

@@ -654,7 +654,8 @@ public final class ItemJudge {
      * NAME: first argument, what it leads to, its call; ARGUMENT: its type, and from where to where its nodes stand;
      * RANGE, CONTROL: left, right, which; ENTRY: its type or choices, its key, whose entry it is. The weight of a [ ],
      * { } or entry is how many entries are in it, those of GROUPS put in, an entry itself counting; the place of an
-     * entry is how many of these come before it in its group.
+     * entry is how many of these come before it in its group. Tied is what a parameter is in, so that it is read otherwise
+     * in another instance: 2 if such a node is behind it in its chain, 3 if it is one.
      */
     private static final class Tree {
         final int[] kind;
@@ -669,6 +670,7 @@ public final class ItemJudge {
         final int[] statement;
         final int[] weight;
         final int[] place;
+        final int[] tied;
         int count;
 
         Tree() {
@@ -684,6 +686,7 @@ public final class ItemJudge {
             statement = new int[NODE_ROOM];
             weight = new int[NODE_ROOM];
             place = new int[NODE_ROOM];
+            tied = new int[NODE_ROOM];
         }
 
         int add(int k, int tok) {
@@ -714,6 +717,15 @@ public final class ItemJudge {
 
         int secondOf(int n) {
             return n >= 0 && n < second.length ? second[n] : NONE;
+        }
+
+        /** The instance in which a node and those behind it in its chain are read: one for all, if it makes no difference. */
+        int chainIn(int n, int in) {
+            return at(tied, n) > 0 ? in : 0;
+        }
+
+        int aloneIn(int n, int in) {
+            return at(tied, n) == 3 ? in : 0;
         }
 
         boolean isName(int n) {
@@ -1908,6 +1920,26 @@ public final class ItemJudge {
             for (int r = rules.ownRule; r < rules.count; r++) {
                 if (at(rules.grouped, r) == 1) placeEntries(at(rules.chain, r));
             }
+            markTied();
+        }
+
+        /** Marks grow from round to round until nothing changes. */
+        private void markTied() {
+            for (int n = rules.ownNode; n < tree.count; n++) put(tree.tied, n, 0);
+            changed = true;
+            for (int time = 0; time < NODE_ROOM && changed; time++) {
+                changed = false;
+                for (int n = tree.count - 1; n >= rules.ownNode; n--) raise(tree.tied, n, tiesOf(n));
+            }
+        }
+
+        private int tiesOf(int n) {
+            int k = tree.kindOf(n);
+            boolean two = k == N_RANGE || k == N_CONTROL || k == N_ENTRY;
+            boolean itself = tree.isName(n) && tree.secondOf(n) >= TO_PARAM || at(tree.tied, tree.firstOf(n)) > 0
+                || two && at(tree.tied, tree.secondOf(n)) > 0;
+            if (itself) return 3;
+            return at(tree.tied, tree.nextOf(n)) > 0 ? 2 : 0;
         }
 
         private int placeEntries(int choices) {
@@ -2028,7 +2060,6 @@ public final class ItemJudge {
         private final int[] after;
         private final int[] depth;
         private final int[] level;
-        private final int[] ordinal;
         private final int[] content;
         private final int[] inside;
         private final long[] number;
@@ -2051,7 +2082,6 @@ public final class ItemJudge {
             after = new int[ROOM];
             depth = new int[ROOM];
             level = new int[ROOM];
-            ordinal = new int[ROOM];
             content = new int[ROOM];
             inside = new int[ROOM];
             number = new long[ROOM];
@@ -2092,11 +2122,6 @@ public final class ItemJudge {
 
         int behindOf(int i) {
             return at(behind, i);
-        }
-
-        /** How many items stand in an array before this one; for the place behind its last one, how many it has. */
-        int placeIn(int list, int i) {
-            return i >= afterOf(list) ? (int) numberOf(list) : at(ordinal, i);
         }
 
         /** Byte j of bytes or text, parts joined. */
@@ -2175,7 +2200,6 @@ public final class ItemJudge {
             put(level, held, at(level, i) + 1);
             int n = 0;
             for (; n <= MAX_LIST && p >= 0 && p < stop; n++) {
-                put(ordinal, count, n);
                 p = n < MAX_LIST ? readItem(p, held, deep + 1) : NONE;
             }
             putLong(number, held, n);
@@ -2290,7 +2314,6 @@ public final class ItemJudge {
                 }
                 if (k == most) return bad(q);
                 for (int half = 0; half < each; half++) {
-                    put(ordinal, count, k);
                     q = readItem(q, i, deep + 1);
                     if (q < 0) return NONE;
                 }
@@ -2306,71 +2329,68 @@ public final class ItemJudge {
      */
     private static final class Memo {
         static final int UNKNOWN = -2;
+        // What is asked: whether an item is as choices, or as one node alone; before which item a group ends.
+        static final int CHOICES = 0;
+        static final int ALONE = 1;
+        static final int END = 2;
+        // Where no item is left: what a group does there is the same in all arrays.
+        static final int NOWHERE = 8191;
         private static final int FIRST_ROOM = 1 << 11;
         private static final int LAST_ROOM = 1 << 19;
         private static final int TRIES = 64;
-        private static final int LAST_STAMP = 1 << 30;
+        private static final int ANSWER_BITS = 14;
+        private static final int STAMP_SHIFT = 46;
+        private static final long LAST_STAMP = (1L << 17) - 1;
 
         private long[] answers;
         private int kept;
         private long stamp;
-        private long[] cells;
-        private int claimed;
-        private int cellStamp;
 
         Memo() {
             answers = new long[FIRST_ROOM];
-            cells = new long[FIRST_ROOM];
             stamp = 1;
         }
 
         /** What was found holds no more: there are other RULES, or is another ITEM. */
         void renew() {
-            stamp++;
             kept = 0;
+            stamp++;
+            if (stamp < LAST_STAMP) return;
+            stamp = 1;
+            for (int i = 0; i < answers.length; i++) putLong(answers, i, 0);
         }
 
-        /** Begins to count cells anew before the stamps run out; only between two calls. */
-        void rest() {
-            claimed = 0;
-            if (cellStamp < LAST_STAMP) return;
-            cellStamp = 0;
-            for (int i = 0; i < cells.length; i++) putLong(cells, i, 0);
+        /** What is asked, at which node, in which instance, of which item: what stands between stamp and answer. */
+        static long key(int what, int n, int in, int item) {
+            return (long) (what & 3) << 30 | (n & 1023) << 20 | (in & 127) << 13 | item & NOWHERE;
         }
 
-        /** What is asked: of a box or of choices, at which node, in which instance, of which item. */
-        static int key(boolean box, int n, int in, int item) {
-            return (box ? 1 << 30 : 0) | (n & 1023) << 20 | (in & 127) << 13 | item & 8191;
-        }
-
-        /** The answer, 0 or 1; UNKNOWN. */
-        int find(int key) {
-            int s = slot(key);
+        /** The answer; UNKNOWN. */
+        int find(long key) {
+            long asked = stamp << STAMP_SHIFT - ANSWER_BITS | key;
+            int s = slot(asked);
             for (int i = 0; i < TRIES; i++) {
                 long there = longAt(answers, s);
-                if (there >>> 32 != stamp) return UNKNOWN;
-                if ((there >>> 1 & Integer.MAX_VALUE) == key) return (int) there & 1;
+                if (there >>> ANSWER_BITS == asked) return (int) (there & (1 << ANSWER_BITS) - 1) - 1;
+                if (there >>> STAMP_SHIFT != stamp) return UNKNOWN;
                 s = s + 1 & answers.length - 1;
             }
             return UNKNOWN;
         }
 
-        void keep(int key, int answer) {
+        /** Keeps an answer from NONE on. */
+        void keep(long key, int answer) {
             if (2 * kept > answers.length && answers.length < LAST_ROOM) grow();
-            place(stamp << 32 | (long) key << 1 | answer);
+            place((stamp << STAMP_SHIFT - ANSWER_BITS | key) << ANSWER_BITS | answer + 1);
         }
 
         private void place(long entry) {
-            int first = slot((int) (entry >>> 1 & Integer.MAX_VALUE));
+            int first = slot(entry >>> ANSWER_BITS);
             int s = first;
             for (int i = 0; i < TRIES; i++) {
-                long there = longAt(answers, s);
-                if (there >>> 32 != stamp) {
-                    putLong(answers, s, entry);
-                    kept++;
-                    return;
-                }
-                if (there >>> 1 == entry >>> 1) {
+                boolean past = longAt(answers, s) >>> STAMP_SHIFT != stamp;
+                if (past) kept++;
+                if (past || longAt(answers, s) >>> ANSWER_BITS == entry >>> ANSWER_BITS) {
                     putLong(answers, s, entry);
                     return;
                 }
@@ -2384,43 +2404,12 @@ public final class ItemJudge {
             answers = new long[2 * old.length];
             kept = 0;
             for (int i = 0; i < old.length; i++) {
-                if (old[i] >>> 32 == stamp) place(old[i]);
+                if (old[i] >>> STAMP_SHIFT == stamp) place(old[i]);
             }
         }
 
-        private int slot(int key) {
-            return (int) (key * 0x9E3779B97F4A7C15L >>> 40) & answers.length - 1;
-        }
-
-        /** The first of so many cells, that are free. */
-        int claim(int size) {
-            int first = claimed;
-            claimed += size;
-            if (claimed > cells.length) {
-                long[] old = cells;
-                cells = new long[2 * claimed];
-                System.arraycopy(old, 0, cells, 0, old.length);
-            }
-            return first;
-        }
-
-        void release(int first) {
-            claimed = first;
-        }
-
-        /** A stamp for cells in which nothing is known yet. */
-        int newStamp() {
-            cellStamp++;
-            return cellStamp;
-        }
-
-        int cell(int i, int stampThere) {
-            long there = longAt(cells, i);
-            return there >>> 32 == stampThere ? (int) there : UNKNOWN;
-        }
-
-        void putCell(int i, int stampThere, int value) {
-            putLong(cells, i, (long) stampThere << 32 | value & 0xffffffffL);
+        private int slot(long asked) {
+            return (int) (asked * 0x9E3779B97F4A7C15L >>> 40) & answers.length - 1;
         }
     }
 
@@ -2432,6 +2421,8 @@ public final class ItemJudge {
         private static final int MAX_CALLS = 100;
         private static final int BLOCK = 64;
         private static final int BLOCKS = 512;
+        private static final int LATE_ROOM = 2048;
+        private static final int LATE_STEP = 701;
         private static final long BEYOND = 1L << 40;
         private static final long SIZES = 511;
 
@@ -2442,16 +2433,16 @@ public final class ItemJudge {
         private final Items items;
         private final long[] firstMask;
         private final int[] firstStamp;
-        private final long[] lastMask;
-        private final int[] lastStamp;
+        private final long[] lateMask;
+        private final long[] lateKey;
         private int stamp;
 
         Leaves(Rules r, Items all) {
             items = all;
             firstMask = new long[Instances.SPOTS];
             firstStamp = new int[Instances.SPOTS];
-            lastMask = new long[Instances.SPOTS];
-            lastStamp = new int[Instances.SPOTS];
+            lateMask = new long[LATE_ROOM];
+            lateKey = new long[LATE_ROOM];
             rules = r;
             tokens = r.tokens;
             tree = r.tree;
@@ -2597,19 +2588,27 @@ public final class ItemJudge {
             }
         }
 
-        /** What NAMES lead to is kept for block 0, which sizes and bits of numbers ask for, and for the latest other one. */
+        /**
+         * What NAMES lead to is kept: for block 0, which sizes and bits of numbers ask for, as long as the RULES stand. For
+         * later blocks it may be driven out, but not by what is asked for the same block.
+         */
         private long maskNamed(int n, int in, int block, int calls) {
             instances.follow(rules, n, in);
             int head = instances.head;
             int headIn = instances.headIn;
             int spot = instances.spot;
-            int now = stamp * BLOCKS + block;
             if (head < 0) return 0;
-            if (at(block == 0 ? firstStamp : lastStamp, spot) == now) return longAt(block == 0 ? firstMask : lastMask, spot);
-            long found = mask(head, headIn, block, calls);
-            put(block == 0 ? firstStamp : lastStamp, spot, now);
-            putLong(block == 0 ? firstMask : lastMask, spot, found);
-            return found;
+            if (spot < 0) return mask(head, headIn, block, calls);
+            if (block == 0) {
+                if (at(firstStamp, spot) != stamp) putLong(firstMask, spot, mask(head, headIn, 0, calls));
+                put(firstStamp, spot, stamp);
+                return longAt(firstMask, spot);
+            }
+            int slot = spot + LATE_STEP * block & LATE_ROOM - 1;
+            long key = ((long) stamp * BLOCKS + block) * LATE_ROOM + spot;
+            if (longAt(lateKey, slot) != key) putLong(lateMask, slot, mask(head, headIn, block, calls));
+            putLong(lateKey, slot, key);
+            return longAt(lateMask, slot);
         }
 
         /** The numbers of a block of which a CONTROL says nothing against. */
@@ -2695,10 +2694,11 @@ public final class ItemJudge {
         private static final int ENTRY = 4;
         private static final int ORIGIN = 5;
         private static final int ROOT = 6;
-        private static final int SPOT = 7;
-        private static final int TIMES = 8;
-        private static final int FOUND = 9;
-        private static final int FRAME = 10;
+        private static final int HEAD = 7;
+        private static final int SPOT = 8;
+        private static final int TIMES = 9;
+        private static final int FOUND = 10;
+        private static final int FRAME = 11;
         private static final int FRAMES = 2048;
 
         private static final long MANY_STEPS = 1L << 50;
@@ -2719,6 +2719,8 @@ public final class ItemJudge {
         private int goNode;
         private int goIn;
         private int goItem;
+        private int group;
+        private int groupIn;
         private final int[] fits;
         private int fitted;
         private final long[] wayKnown;
@@ -2746,7 +2748,6 @@ public final class ItemJudge {
 
         /** Each step enters a node or takes an answer; as each answer is kept, there are far less of them than the bound. */
         boolean says(int rule, int item) {
-            memo.rest();
             top = 0;
             fitted = 0;
             int answer = goTo(at(rules.chain, rule), 0, item);
@@ -2783,8 +2784,9 @@ public final class ItemJudge {
             return f;
         }
 
-        private int enter(int n, int in, int item) {
+        private int enter(int n, int instance, int item) {
             if (n < 0) return NO;
+            int in = tree.chainIn(n, instance);
             if (tree.nextOf(n) >= 0) push(ELSE, tree.nextOf(n), in, item);
             switch (tree.kindOf(n)) {
                 case N_NAME:
@@ -2800,8 +2802,8 @@ public final class ItemJudge {
                 case N_CONTROL:
                     push(CHECK, n, in, item);
                     return goTo(tree.firstOf(n), in, item);
-                case N_ARRAY: return enterArray(n, in, item);
-                case N_MAP: return enterMap(n, in, item);
+                case N_ARRAY: return enterArray(n, tree.aloneIn(n, in), item);
+                case N_MAP: return enterMap(n, tree.aloneIn(n, in), item);
                 default: return leaves.isSo(n, item) ? YES : NO;
             }
         }
@@ -2809,10 +2811,10 @@ public final class ItemJudge {
         private int enterNamed(int n, int in, int item) {
             instances.follow(rules, n, in);
             int head = instances.head;
-            int headIn = instances.headIn;
+            int headIn = tree.chainIn(head, instances.headIn);
             if (head < 0) return NO;
             if (head >= rules.ownNode) {
-                int known = memo.find(Memo.key(false, head, headIn, item));
+                int known = memo.find(Memo.key(Memo.CHOICES, head, headIn, item));
                 if (known != GO) return known;
                 push(KEEP, head, headIn, item);
             }
@@ -2830,19 +2832,17 @@ public final class ItemJudge {
             top--;
             switch (what) {
                 case ELSE: return answer == YES ? YES : goTo(n, in, item);
-                case KEEP: return kept(false, f, answer);
-                case ARRAY:
-                    memo.release(look(f, SPOT));
-                    return kept(true, f, answer == items.afterOf(item) ? YES : NO);
+                case KEEP: return kept(Memo.CHOICES, f, answer);
+                case ARRAY: return kept(Memo.ALONE, f, answer == items.afterOf(item) ? YES : NO);
                 case MAP:
                     fitted = look(f, SPOT);
-                    return kept(true, f, isGiven(n, item) ? YES : NO);
+                    return kept(Memo.ALONE, f, isGiven(n, item) ? YES : NO);
                 default: return answer == YES ? check(n, in, item) : NO;
             }
         }
 
-        private int kept(boolean box, int f, int answer) {
-            memo.keep(Memo.key(box, look(f, NODE), look(f, IN), look(f, ITEM)), answer);
+        private int kept(int what, int f, int answer) {
+            memo.keep(Memo.key(what, look(f, NODE), look(f, IN), look(f, ITEM)), answer);
             return answer;
         }
 
@@ -2854,13 +2854,22 @@ public final class ItemJudge {
                 case C_DEFAULT: return YES;
                 case C_AND: return goTo(right, in, item);
                 case C_SIZE: return leaves.hasSize(right, in, item) ? YES : NO;
-                case C_BITS: return leaves.hasBits(right, in, item) ? YES : NO;
+                case C_BITS: return checkBits(n, right, tree.aloneIn(n, in), item);
                 case C_CBOR:
                 case C_CBORSEQ: return enterHeld(which == C_CBOR, right, in, item);
                 case C_EQ: return leaves.isSo(right, item) ? YES : NO;
                 case C_NE: return leaves.isSo(right, item) ? NO : YES;
                 default: return leaves.compares(which, right, item) ? YES : NO;
             }
+        }
+
+        private int checkBits(int n, int right, int in, int item) {
+            long key = Memo.key(Memo.ALONE, n, in, item);
+            int known = memo.find(key);
+            if (known != GO) return known;
+            int answer = leaves.hasBits(right, in, item) ? YES : NO;
+            memo.keep(key, answer);
+            return answer;
         }
 
         /** The one item that bytes hold, or the array of all, as a type. */
@@ -2872,19 +2881,18 @@ public final class ItemJudge {
 
         private int enterArray(int n, int in, int item) {
             if (items.majorOf(item) != 4) return NO;
-            int known = memo.find(Memo.key(true, n, in, item));
+            int known = memo.find(Memo.key(Memo.ALONE, n, in, item));
             if (known != GO) return known;
             int f = push(ARRAY, n, in, item);
-            set(f, SPOT, memo.claim(at(tree.weight, n) * ((int) items.numberOf(item) + 1)));
-            set(f, FOUND, memo.newStamp());
-            pushGroup(GROUP, f, 0, tree.firstOf(n), in, item + 1);
+            pushGroup(GROUP, f, tree.firstOf(n), in, item + 1);
             return goOn();
         }
 
-        private void pushGroup(int what, int root, int origin, int choices, int in, int item) {
+        private void pushGroup(int what, int root, int choices, int in, int item) {
             int g = push(what, choices, in, item);
             set(g, ROOT, root);
-            set(g, ORIGIN, origin);
+            set(g, HEAD, choices);
+            set(g, ORIGIN, 0);
             beginChoice(g, choices);
         }
 
@@ -2900,16 +2908,16 @@ public final class ItemJudge {
             set(g, FOUND, 0);
         }
 
-        /** The group that an entry means, on top of the frames. */
-        private void pushWithin(int what, int g, int entry, int item) {
-            int origin = look(g, ORIGIN) + at(tree.place, entry) + 1;
-            int in = look(g, IN);
-            if (tree.kindOf(entry) == N_GROUP_ENTRY) {
-                pushGroup(what, look(g, ROOT), origin, tree.firstOf(entry), in, item);
-                return;
+        /** Sets group and groupIn: the first choice of the group that an entry is, and the instance in which that is read. */
+        private void findGroup(int entry, int in) {
+            group = tree.firstOf(entry);
+            groupIn = in;
+            if (tree.kindOf(entry) == N_NAMED_ENTRY) {
+                instances.follow(rules, entry, in);
+                group = instances.head;
+                groupIn = instances.headIn;
             }
-            instances.follow(rules, entry, in);
-            pushGroup(what, look(g, ROOT), origin, instances.head, instances.headIn, item);
+            groupIn = tree.chainIn(group, groupIn);
         }
 
         /**
@@ -2922,7 +2930,7 @@ public final class ItemJudge {
                 int entry = look(g, ENTRY);
                 if (look(g, NODE) < 0 || entry < 0) {
                     top--;
-                    return look(g, NODE) < 0 ? NONE : look(g, SPOT);
+                    return ended(g, look(g, NODE) < 0 ? NONE : look(g, SPOT));
                 }
                 if (look(g, TIMES) >= rules.most(entry) || rules.least(entry) > rules.most(entry)) {
                     endEntry(g, entry);
@@ -2931,30 +2939,33 @@ public final class ItemJudge {
                 int next = known(g, entry);
                 if (next != GO) take(g, entry, next);
                 else if (tree.kindOf(entry) == N_ENTRY) return goTo(tree.firstOf(entry), look(g, IN), look(g, SPOT));
-                else pushWithin(GROUP, g, entry, look(g, SPOT));
+                else pushGroup(GROUP, look(g, ROOT), group, groupIn, look(g, SPOT));
             }
             return NONE;
         }
 
         /** Before which item an entry ends that is tried once more, if that is known. */
         private int known(int g, int entry) {
-            int list = look(look(g, ROOT), ITEM);
-            if (tree.kindOf(entry) == N_ENTRY && look(g, SPOT) >= items.afterOf(list)) return NONE;
-            return memo.cell(cellOf(g, entry), look(look(g, ROOT), FOUND));
+            int spot = look(g, SPOT);
+            boolean atEnd = spot >= items.afterOf(look(look(g, ROOT), ITEM));
+            if (tree.kindOf(entry) == N_ENTRY) return atEnd ? NONE : GO;
+            findGroup(entry, look(g, IN));
+            int found = memo.find(Memo.key(Memo.END, group, groupIn, atEnd ? Memo.NOWHERE : spot));
+            return found >= 0 && atEnd ? spot : found;
         }
 
-        private int cellOf(int g, int entry) {
-            int root = look(g, ROOT);
-            int list = look(root, ITEM);
-            int row = look(g, ORIGIN) + at(tree.place, entry);
-            return look(root, SPOT) + row * ((int) items.numberOf(list) + 1) + items.placeIn(list, look(g, SPOT));
+        /** Keeps before which item a group ends; where no item is left, that it takes nothing. */
+        private int ended(int g, int end) {
+            int from = look(g, ITEM);
+            boolean atEnd = from >= items.afterOf(look(look(g, ROOT), ITEM));
+            memo.keep(Memo.key(Memo.END, look(g, HEAD), look(g, IN), atEnd ? Memo.NOWHERE : from), atEnd && end >= 0 ? 0 : end);
+            return end;
         }
 
         private int gained(int g, int answer) {
             int entry = look(g, ENTRY);
             int next = answer;
             if (tree.kindOf(entry) == N_ENTRY) next = answer == YES ? items.afterOf(look(g, SPOT)) : NONE;
-            memo.putCell(cellOf(g, entry), look(look(g, ROOT), FOUND), next);
             take(g, entry, next);
             return goOn();
         }
@@ -2979,12 +2990,12 @@ public final class ItemJudge {
 
         private int enterMap(int n, int in, int item) {
             if (items.majorOf(item) != 5 || items.numberOf(item) > MAX_PAIRS) return NO;
-            int known = memo.find(Memo.key(true, n, in, item));
+            int known = memo.find(Memo.key(Memo.ALONE, n, in, item));
             if (known != GO) return known;
             int f = push(MAP, n, in, item);
             set(f, SPOT, fitted);
             fitted += at(tree.weight, n);
-            pushGroup(FITS, f, 0, tree.firstOf(n), in, item);
+            pushGroup(FITS, f, tree.firstOf(n), in, item);
             return goFit();
         }
 
@@ -3003,7 +3014,9 @@ public final class ItemJudge {
                     beginChoice(g, tree.nextOf(look(g, NODE)));
                 } else if (tree.kindOf(entry) != N_ENTRY) {
                     beginEntry(g, tree.nextOf(entry));
-                    pushWithin(FITS, g, entry, look(g, ITEM));
+                    findGroup(entry, look(g, IN));
+                    pushGroup(FITS, look(g, ROOT), group, groupIn, look(g, ITEM));
+                    set(top - 1, ORIGIN, look(g, ORIGIN) + at(tree.place, entry) + 1);
                 } else if (asksMore(g, entry)) {
                     return ask(g, entry);
                 } else {
@@ -3090,12 +3103,9 @@ public final class ItemJudge {
 
         private long waysWithin(int entry, int spot, int given, int calls) {
             if ((longAt(wayKnown, spot) >>> given & 1) == 1) return longAt(wayEnds, spot * GIVEN_SETS + given);
-            int choices = tree.firstOf(entry);
-            if (tree.kindOf(entry) == N_NAMED_ENTRY) {
-                instances.follow(rules, entry, 0);
-                choices = instances.head;
-            }
-            long ends = ways(choices, spot + 1, given, calls + 1);
+            // Which pairs fit has been found: all that is needed here stands in the group's text, whatever its instance.
+            findGroup(entry, 0);
+            long ends = ways(group, spot + 1, given, calls + 1);
             putLong(wayKnown, spot, longAt(wayKnown, spot) | 1L << given);
             putLong(wayEnds, spot * GIVEN_SETS + given, ends);
             return ends;

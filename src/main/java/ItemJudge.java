@@ -771,6 +771,7 @@ public final class ItemJudge {
         final int[] told;
         final int[] grouped;
         final int[] chain;
+        final int[] only;
         int statements;
         int count;
         int ownToken;
@@ -792,6 +793,7 @@ public final class ItemJudge {
             told = new int[RULE_ROOM];
             grouped = new int[RULE_ROOM];
             chain = new int[RULE_ROOM];
+            only = new int[RULE_ROOM];
         }
 
         void keepPrelude() {
@@ -1571,8 +1573,9 @@ public final class ItemJudge {
             }
         }
 
-        /** From here on the mark of ~ NAME is its box. */
+        /** From here on the mark of ~ NAME is its box, and it is known which rules are one node. */
         private void keepBoxes() {
+            for (int r = 0; r < rules.count; r++) put(rules.only, r, rules.single(at(rules.chain, r)));
             for (int n = rules.ownNode; n < tree.count; n++) {
                 if (tree.kindOf(n) == N_UNWRAP) put(tree.mark, n, rules.box(tree.secondOf(n)));
             }
@@ -1625,8 +1628,9 @@ public final class ItemJudge {
 
         /** The instance that a NAME leads to, where it is read in this one. */
         int lead(int name, int in) {
-            int call = at(tree.third, name);
-            return call < 0 ? 0 : at(calls, call * (MAX_INSTANCES + 1) + in);
+            int call = name >= 0 && name < tree.third.length ? tree.third[name] : NONE;
+            int i = call * (MAX_INSTANCES + 1) + in;
+            return call >= 0 && i >= 0 && i < calls.length ? calls[i] : 0;
         }
 
         /** Sets box and boxIn: the #6 ( ), [ ] or { } that ~ NAME means, and the instance in which it is read. */
@@ -1635,7 +1639,7 @@ public final class ItemJudge {
             boxIn = in;
             for (int i = 0; i < RULE_ROOM; i++) {
                 boxIn = lead(n, boxIn);
-                box = rules.single(at(rules.chain, tree.secondOf(n)));
+                box = at(rules.only, tree.secondOf(n));
                 if (tree.kindOf(box) != N_NAME) return;
                 n = box;
             }
@@ -2181,14 +2185,9 @@ public final class ItemJudge {
 
         /** The array, standing nowhere, of the items that bytes hold one behind the other; NONE if they hold none such. */
         int within(int i) {
-            int held = at(inside, i);
-            if (held != 0) return held;
-            held = at(level, i) < MAX_NESTED && count < ROOM ? readWithin(i) : NONE;
-            put(inside, i, held);
-            return held;
-        }
-
-        private int readWithin(int i) {
+            if (at(inside, i) != 0) return at(inside, i);
+            put(inside, i, NONE);
+            if (at(level, i) >= MAX_NESTED || count >= ROOM) return NONE;
             int held = count;
             int joinedBefore = joined;
             int deep = at(depth, i);
@@ -2199,15 +2198,16 @@ public final class ItemJudge {
             put(depth, held, deep);
             put(level, held, at(level, i) + 1);
             int n = 0;
-            for (; n <= MAX_LIST && p >= 0 && p < stop; n++) {
-                p = n < MAX_LIST ? readItem(p, held, deep + 1) : NONE;
-            }
+            for (; n <= MAX_LIST && p >= 0 && p < stop; n++) p = n < MAX_LIST ? readItem(p, held, deep + 1) : NONE;
             putLong(number, held, n);
             put(after, held, count);
-            if (p >= 0) return held;
-            count = held;
-            joined = joinedBefore;
-            return NONE;
+            if (p < 0) {
+                count = held;
+                joined = joinedBefore;
+                return NONE;
+            }
+            put(inside, i, held);
+            return held;
         }
 
         private int bad(int p) {
@@ -2677,7 +2677,11 @@ public final class ItemJudge {
     private static final class Judge {
         private static final int NO = 0;
         private static final int YES = 1;
+        // What is no answer yet: a node is to be entered, or tested as a CONTROL asks; groups are to go on.
         private static final int GO = Memo.UNKNOWN;
+        private static final int TEST = -3;
+        private static final int GO_ON = -4;
+        private static final int GO_FIT = -5;
         private static final int ELSE = 0;
         private static final int KEEP = 1;
         private static final int CHECK = 2;
@@ -2753,6 +2757,9 @@ public final class ItemJudge {
             int answer = goTo(at(rules.chain, rule), 0, item);
             for (long step = 0; step < MANY_STEPS; step++) {
                 if (answer == GO) answer = enter(goNode, goIn, goItem);
+                else if (answer == TEST) answer = check(goNode, goIn, goItem);
+                else if (answer == GO_ON) answer = goOn();
+                else if (answer == GO_FIT) answer = goFit();
                 else if (top <= 0) return answer == YES;
                 else answer = leave(top - 1, answer);
             }
@@ -2771,7 +2778,8 @@ public final class ItemJudge {
         }
 
         private void set(int f, int field, int value) {
-            put(frames, f * FRAME + field, value);
+            int i = f * FRAME + field;
+            if (i >= 0 && i < frames.length) frames[i] = value;
         }
 
         private int push(int what, int n, int in, int item) {
@@ -2837,7 +2845,9 @@ public final class ItemJudge {
                 case MAP:
                     fitted = look(f, SPOT);
                     return kept(Memo.ALONE, f, isGiven(n, item) ? YES : NO);
-                default: return answer == YES ? check(n, in, item) : NO;
+                default:
+                    goTo(n, in, item);
+                    return answer == YES ? TEST : NO;
             }
         }
 
@@ -2854,29 +2864,22 @@ public final class ItemJudge {
                 case C_DEFAULT: return YES;
                 case C_AND: return goTo(right, in, item);
                 case C_SIZE: return leaves.hasSize(right, in, item) ? YES : NO;
-                case C_BITS: return checkBits(n, right, tree.aloneIn(n, in), item);
+                case C_BITS:
+                    long key = Memo.key(Memo.ALONE, n, tree.aloneIn(n, in), item);
+                    int answer = memo.find(key);
+                    if (answer != GO) return answer;
+                    answer = leaves.hasBits(right, in, item) ? YES : NO;
+                    memo.keep(key, answer);
+                    return answer;
                 case C_CBOR:
-                case C_CBORSEQ: return enterHeld(which == C_CBOR, right, in, item);
+                case C_CBORSEQ:
+                    int held = items.majorOf(item) == 2 ? items.within(item) : NONE;
+                    if (held < 0 || which == C_CBOR && items.numberOf(held) != 1) return NO;
+                    return goTo(right, in, which == C_CBOR ? held + 1 : held);
                 case C_EQ: return leaves.isSo(right, item) ? YES : NO;
                 case C_NE: return leaves.isSo(right, item) ? NO : YES;
                 default: return leaves.compares(which, right, item) ? YES : NO;
             }
-        }
-
-        private int checkBits(int n, int right, int in, int item) {
-            long key = Memo.key(Memo.ALONE, n, in, item);
-            int known = memo.find(key);
-            if (known != GO) return known;
-            int answer = leaves.hasBits(right, in, item) ? YES : NO;
-            memo.keep(key, answer);
-            return answer;
-        }
-
-        /** The one item that bytes hold, or the array of all, as a type. */
-        private int enterHeld(boolean one, int type, int in, int item) {
-            int held = items.majorOf(item) == 2 ? items.within(item) : NONE;
-            if (held < 0 || one && items.numberOf(held) != 1) return NO;
-            return goTo(type, in, one ? held + 1 : held);
         }
 
         private int enterArray(int n, int in, int item) {
@@ -2885,7 +2888,7 @@ public final class ItemJudge {
             if (known != GO) return known;
             int f = push(ARRAY, n, in, item);
             pushGroup(GROUP, f, tree.firstOf(n), in, item + 1);
-            return goOn();
+            return GO_ON;
         }
 
         private void pushGroup(int what, int root, int choices, int in, int item) {
@@ -2899,7 +2902,9 @@ public final class ItemJudge {
         private void beginChoice(int g, int choice) {
             set(g, NODE, choice);
             set(g, SPOT, look(g, ITEM));
-            beginEntry(g, tree.firstOf(choice));
+            set(g, ENTRY, tree.firstOf(choice));
+            set(g, TIMES, 0);
+            set(g, FOUND, 0);
         }
 
         private void beginEntry(int g, int entry) {
@@ -2967,7 +2972,7 @@ public final class ItemJudge {
             int next = answer;
             if (tree.kindOf(entry) == N_ENTRY) next = answer == YES ? items.afterOf(look(g, SPOT)) : NONE;
             take(g, entry, next);
-            return goOn();
+            return GO_ON;
         }
 
         /** What takes nothing is not tried again, and counts as often as it must. */
@@ -2996,7 +3001,7 @@ public final class ItemJudge {
             set(f, SPOT, fitted);
             fitted += at(tree.weight, n);
             pushGroup(FITS, f, tree.firstOf(n), in, item);
-            return goFit();
+            return GO_FIT;
         }
 
         /**
@@ -3046,11 +3051,11 @@ public final class ItemJudge {
             if (answer == YES) set(g, FOUND, look(g, FOUND) | (times % 2 == 0 ? bit : GIVEN_SETS * bit));
             if (answer == YES && times % 2 == 0) {
                 set(g, TIMES, times + 1);
-                return goFit();
+                return GO_FIT;
             }
             set(g, TIMES, times - times % 2 + 2);
             set(g, SPOT, items.afterOf(items.afterOf(look(g, SPOT))));
-            return goFit();
+            return GO_FIT;
         }
 
         /** Whether all pairs of a map can be given to entries, now that it is known which fit. */
@@ -3103,12 +3108,17 @@ public final class ItemJudge {
 
         private long waysWithin(int entry, int spot, int given, int calls) {
             if ((longAt(wayKnown, spot) >>> given & 1) == 1) return longAt(wayEnds, spot * GIVEN_SETS + given);
-            // Which pairs fit has been found: all that is needed here stands in the group's text, whatever its instance.
-            findGroup(entry, 0);
-            long ends = ways(group, spot + 1, given, calls + 1);
+            long ends = ways(choicesOf(entry), spot + 1, given, calls + 1);
             putLong(wayKnown, spot, longAt(wayKnown, spot) | 1L << given);
             putLong(wayEnds, spot * GIVEN_SETS + given, ends);
             return ends;
+        }
+
+        /** The first choice of the group that an entry is, which is the same node in all instances. */
+        private int choicesOf(int entry) {
+            int n = tree.firstOf(entry);
+            if (tree.kindOf(entry) == N_GROUP_ENTRY) return n;
+            return tree.kindOf(n) == N_UNWRAP ? tree.firstOf(at(tree.mark, n)) : at(rules.chain, tree.secondOf(n));
         }
 
         /** Goes through an entry of one type with each set of pairs that can have been given before it. */

@@ -2418,7 +2418,7 @@ public final class ItemJudge {
      * type, 64 of them at once: a mask has a bit for each of a block. Sizes and places of bits are such numbers.
      */
     private static final class Leaves {
-        private static final int MAX_CALLS = 100;
+        private static final int MAX_CALLS = 80;
         private static final int BLOCK = 64;
         private static final int BLOCKS = 512;
         private static final int LATE_ROOM = 2048;

@@ -2381,10 +2381,10 @@ public final class ItemJudge {
         /** Keeps an answer from NONE on. */
         void keep(long key, int answer) {
             if (2 * kept > answers.length && answers.length < LAST_ROOM) grow();
-            place((stamp << STAMP_SHIFT - ANSWER_BITS | key) << ANSWER_BITS | answer + 1);
+            settle((stamp << STAMP_SHIFT - ANSWER_BITS | key) << ANSWER_BITS | answer + 1);
         }
 
-        private void place(long entry) {
+        private void settle(long entry) {
             int first = slot(entry >>> ANSWER_BITS);
             int s = first;
             for (int i = 0; i < TRIES; i++) {
@@ -2404,7 +2404,7 @@ public final class ItemJudge {
             answers = new long[2 * old.length];
             kept = 0;
             for (int i = 0; i < old.length; i++) {
-                if (old[i] >>> STAMP_SHIFT == stamp) place(old[i]);
+                if (old[i] >>> STAMP_SHIFT == stamp) settle(old[i]);
             }
         }
 

@@ -1939,7 +1939,7 @@ public final class ItemJudge {
 
         private int tiesOf(int n) {
             int k = tree.kindOf(n);
-            boolean two = k == N_RANGE || k == N_CONTROL || k == N_ENTRY;
+            boolean two = k == N_CONTROL || k == N_ENTRY;
             boolean itself = tree.isName(n) && tree.secondOf(n) >= TO_PARAM || at(tree.tied, tree.firstOf(n)) > 0
                 || two && at(tree.tied, tree.secondOf(n)) > 0;
             if (itself) return 3;
@@ -2189,7 +2189,6 @@ public final class ItemJudge {
             put(inside, i, NONE);
             if (at(level, i) >= MAX_NESTED || count >= ROOM) return NONE;
             int held = count;
-            int joinedBefore = joined;
             int deep = at(depth, i);
             int p = at(content, i);
             open(p, (int) numberOf(i), held + 1);
@@ -2201,13 +2200,8 @@ public final class ItemJudge {
             for (; n <= MAX_LIST && p >= 0 && p < stop; n++) p = n < MAX_LIST ? readItem(p, held, deep + 1) : NONE;
             putLong(number, held, n);
             put(after, held, count);
-            if (p < 0) {
-                count = held;
-                joined = joinedBefore;
-                return NONE;
-            }
-            put(inside, i, held);
-            return held;
+            if (p >= 0) put(inside, i, held);
+            return at(inside, i);
         }
 
         private int bad(int p) {

@@ -11,10 +11,12 @@ public final class DearTest {
         blocks();
         heldItems();
         heldAnew();
+        heldBehindFaults();
         arraysInGroups();
         mapsInGroups();
         groupsInArrays();
         groupsOfInstances();
+        instances();
         groupsInMaps();
         manyAnswers();
         manyBrackets();
@@ -92,6 +94,10 @@ public final class DearTest {
         P.notSo("5821" + eight + eight + eight + eight + "01");
         P.says("a = bytes .bits (uint .bits (7 / 0))").so("51" + "0300000000000000" + eight + "03", "4103");
         P.notSo("4104", "51" + eight + eight + "04");
+        P.says("a = bytes .bits (uint .bits (0 / 1))").so("410f");
+        P.notSo("51" + eight + eight + "01", "49" + eight + "01");
+        P.says("a = bytes .bits (any .ge 70)").so("49" + eight + "c0");
+        P.notSo("49" + eight + "20");
         P.says("a = bytes .bits (any .ne 70)").so("49" + all + "bf");
         P.notSo("49" + eight + "40");
         P.says("a = bytes .bits ((any .ne \"x\") .and (any .eq 70 / any .eq \"x\"))").so("49" + eight + "40");
@@ -143,6 +149,14 @@ public final class DearTest {
         P.notSo("825f" + held("81") + held("61") + "ff" + held("80"));
     }
 
+    /** What is joined for an ITEM that is none takes no room from what is joined later. */
+    private static void heldBehindFaults() {
+        P.says("a = bytes .cbor '" + Probe.times("x", 100) + "'").so(held("5f" + Probe.times(held("7878"), 50) + "ff"));
+        P.items(held("5f" + Probe.times(held("7878"), 50) + "ff"), 1);
+        for (int i = 0; i < 9; i++) P.illFormed("5f590b00" + Probe.times("79", 2816), 2820);
+        Probe.due("the ITEM that stays", P.judge.judge(0, 0), 1);
+    }
+
     private static void arraysInGroups() {
         String text = "a = [g0] " + rows("g#i = (" + Probe.times("? [g#j] ", 7) + ")", 8) + "g8 = (1)";
         P.says(text).so(Probe.times("81", 9) + "01", "80", "87" + Probe.times("80", 7));
@@ -176,6 +190,35 @@ public final class DearTest {
         // The same group in other instances, and at the end of other arrays.
         P.says("a = [* ([b<1>] / [b<2>])] b<x> = (* (x, ? 3), * (7))").so("848301030183020203810780");
         P.notSo("81820102", "82810183030202", "81820701");
+    }
+
+    /** What is kept of one instance, or of one text, is not taken for another one. */
+    private static void instances() {
+        P.says("a = [g, 1 // g, 2] g = (* 3)").so("83030302", "8102", "820301");
+        P.notSo("83030304", "80");
+        P.says("a = [g<1>, 3 // g<2>, 3] g<x> = (* x)").so("83020203", "83010103", "8103");
+        P.notSo("83020103", "80");
+        P.says("a = p<1> / p<2> p<x> = bytes .size x").so("4100", "420000");
+        P.notSo("43000000");
+        P.says("a = (bytes .size q<1>) / (bytes .size q<2>) q<y> = y / 7").so("4100", "420000", "4700000000000000");
+        P.notSo("43000000");
+        P.says("a = bytes .size (b / ~b) b = #6(5)").so("450000000000");
+        P.notSo("4400000000");
+        P.says("a = p<0> / p<1> p<x> = bytes .bits x").so("4101", "4102", "40");
+        P.notSo("4103", "4104");
+        P.says("a = b<1> / b<2> b<p> = {p => 5}").so("a10105", "a10205");
+        P.notSo("a10305", "a10106");
+        P.says("a = b<1> / b<2> b<p> = int .and p").so("01", "02");
+        P.notSo("03");
+        P.says("a = b<1> / b<2> b<p> = (int .and p) .and int").so("01", "02");
+        P.notSo("03");
+        P.says("a = b<1> / b<2> b<p> = bytes .cbor [p]").so("428101", "428102");
+        P.notSo("428103");
+        P.says("a = [int]").so("8101");
+        P.says("a = [tstr]");
+        Probe.due("other RULES", P.judge.judge(0, 0), 0);
+        P.says("a = {x: 1, y: {? z: 2, ? u: 3, ? v: 4}}").so("a26179a1617a02617801", "a2617801" + "6179a1617a02");
+        P.notSo("a26179a1617a03617801");
     }
 
     private static void groupsInMaps() {

@@ -31,7 +31,8 @@ public final class ItemJudge {
     private static final int TOKEN_ROOM = 520;
     private static final int NODE_ROOM = 1000;
     private static final int RULE_ROOM = 145;
-    private static final int CALL_ROOM = 76;
+    // A NAME with < > takes three tokens that no other one has.
+    private static final int CALL_ROOM = MAX_TOKENS / 3;
 
     private static final int T_END = 0;
     private static final int T_BAD = 1;

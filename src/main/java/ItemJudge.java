@@ -28,10 +28,15 @@ public final class ItemJudge {
     private static final int OWN_TEXT = 1200;
     private static final int OWN_BODIES = OWN_TEXT + TAPE_ROOM;
     private static final int TEXT_ROOM = OWN_BODIES + TAPE_ROOM;
-    private static final int TOKEN_ROOM = 520;
-    private static final int NODE_ROOM = 1000;
-    private static final int RULE_ROOM = 145;
-    // A NAME with < > takes three tokens that no other one has.
+    // The prelude has so many tokens, nodes and rules, or some less; the text's own come behind them.
+    private static final int PRELUDE_TOKENS = 210;
+    private static final int PRELUDE_NODES = 170;
+    private static final int PRELUDE_RULES = 42;
+    // Own tokens end with one more, the end. No token brings more than two nodes, but a [ or { that is an entry three: the
+    // third is that of its end, if it has one. A rule takes at least NAME = and a token, a NAME with < > these three.
+    private static final int TOKEN_ROOM = PRELUDE_TOKENS + MAX_TOKENS + 1;
+    private static final int NODE_ROOM = PRELUDE_NODES + 2 * MAX_TOKENS + MAX_OPEN;
+    private static final int RULE_ROOM = PRELUDE_RULES + MAX_TOKENS / 3;
     private static final int CALL_ROOM = MAX_TOKENS / 3;
 
     private static final int T_END = 0;
@@ -2331,8 +2336,9 @@ public final class ItemJudge {
         // Where no item is left: what a group does there is the same in all arrays.
         static final int NOWHERE = 8191;
         private static final int FIRST_ROOM = 1 << 11;
-        private static final int LAST_ROOM = 1 << 19;
-        private static final int TRIES = 64;
+        private static final int LAST_ROOM = 1 << 21;
+        private static final int GROWTH = 4;
+        private static final int TRIES = 256;
         private static final int ANSWER_BITS = 14;
         private static final int STAMP_SHIFT = 46;
         private static final long LAST_STAMP = (1L << 17) - 1;
@@ -2396,7 +2402,7 @@ public final class ItemJudge {
 
         private void grow() {
             long[] old = answers;
-            answers = new long[2 * old.length];
+            answers = new long[GROWTH * old.length];
             kept = 0;
             for (int i = 0; i < old.length; i++) {
                 if (old[i] >>> STAMP_SHIFT == stamp) settle(old[i]);

@@ -31,7 +31,7 @@ public final class DearTest {
     }
 
     /** Bytes that hold these. */
-    private static String held(String hex) {
+    static String held(String hex) {
         int n = hex.length() / 2;
         String head = n < 24 ? String.format("%02x", 0x40 + n) : n < 256 ? String.format("58%02x", n) : String.format("59%04x", n);
         return head + hex;

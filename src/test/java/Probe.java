@@ -2,28 +2,52 @@
 final class Probe {
     private static int wrong = 0;
     private static int asked = 0;
+    private static String sentence = "";
+    private static int sentences = 0;
+    private static int askedBefore = 0;
 
     ItemJudge judge = new ItemJudge();
     private String text = "";
 
     /** Ends the test: exit code 1 if an answer was not due. */
     static void finish() {
-        System.out.println(asked + " answers, " + wrong + " of them not as due");
+        endSentence();
+        String of = sentences == 0 ? "" : "to " + sentences + " sentences of the document ";
+        System.out.println(asked + " answers " + of + "asked for, " + wrong + " of them not as due");
         if (wrong != 0) System.exit(1);
+    }
+
+    /** What is asked from here on is due by these words of the document, until others are named. */
+    static void sentence(String words) {
+        endSentence();
+        sentence = words;
+        sentences++;
+        askedBefore = asked;
+    }
+
+    private static void endSentence() {
+        if (sentences == 0 || asked > askedBefore) return;
+        wrong++;
+        System.out.println("nothing is asked for: " + sentence);
+    }
+
+    private static void notDue(String what, String got, String want) {
+        wrong++;
+        System.out.println(brief(what) + ": answered " + brief(got) + ", due is " + brief(want) + (sentence.isEmpty() ? "" : " (" + sentence + ")"));
+    }
+
+    private static String brief(String words) {
+        return words.length() <= 500 ? words : words.substring(0, 500) + ".. " + (words.length() - 500) + " signs more";
     }
 
     static void due(String what, long got, long want) {
         asked++;
-        if (got == want) return;
-        wrong++;
-        System.out.println(what + ": answered " + got + ", due is " + want);
+        if (got != want) notDue(what, "" + got, "" + want);
     }
 
     static void due(String what, String got, String want) {
         asked++;
-        if (got.equals(want)) return;
-        wrong++;
-        System.out.println(what + ": answered " + got + ", due is " + want);
+        if (!got.equals(want)) notDue(what, got, want);
     }
 
     static String times(String part, int n) {
@@ -95,12 +119,14 @@ final class Probe {
         due(hex + " as " + text, judge.judge(0, 0), want);
     }
 
-    void so(String... hexes) {
+    Probe so(String... hexes) {
         for (String hex : hexes) is(hex, 1);
+        return this;
     }
 
-    void notSo(String... hexes) {
+    Probe notSo(String... hexes) {
         for (String hex : hexes) is(hex, 0);
+        return this;
     }
 
     /** Takes a text of rules that has no FAULT. */

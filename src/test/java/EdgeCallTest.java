@@ -89,6 +89,11 @@ public final class EdgeCallTest {
     }
 
     private static void fullTape() {
+        Probe.sentence("THE TAPE has bytes, 3000 at most.");
+        Probe p = new Probe();
+        p.rules(Probe.times(" ", 2995) + "a = 1", 1);
+        p.rules("a=\"" + Probe.times("x", 2996) + "\"", 1);
+        Probe.due("size of the longest tape", p.item("590bb5" + Probe.times("cd", 2997)), 1);
         Probe.sentence("NONE (none comes): it would have more than 3000.");
         ItemJudge x = new ItemJudge();
         for (int i = 1; i <= 149; i++) x.feed(BLANKS, BLANKS, BLANKS, BLANKS, BLANKS);
@@ -110,7 +115,6 @@ public final class EdgeCallTest {
         Probe.due("at the text's length", x.place(), 3000);
         Probe.due("empty then", x.feed(0, 0, 0, 0, 0), 20);
         // 3000 bytes as an ITEM.
-        Probe p = new Probe();
         p.items("590bb5" + Probe.times("cd", 2997), 1);
         Probe.due("last byte", p.judge.node(0, 6 + 2996), 0xcd);
         Probe.due("behind it", p.judge.node(0, 6 + 2997), -1);
@@ -430,6 +434,21 @@ public final class EdgeCallTest {
         p.items("81b863" + Probe.times("0005", 99), 200);
         Probe.due("the last item", p.judge.judge(0, 199), 1);
         Probe.due("behind it", p.judge.judge(0, 200), -1);
+        // Each time as the RULES and the ITEM of then say.
+        String[] texts = {"a = [b] b = 5", "a = [b] b = 6", "a = [c] c = 5", "a = [b] b = # .bits (0 / 2)", "a = [b] b = # .bits (1 / 2)"};
+        int[][] dues = {{1, 0}, {0, 1}, {1, 0}, {1, 0}, {0, 1}};
+        String[] hexes = {"8105", "8106"};
+        for (int i = 0; i < 2; i++) {
+            p.items(hexes[i], 2);
+            for (int k = 0; k < 5; k++) {
+                p.says(texts[k]);
+                Probe.due(hexes[i] + " as " + texts[k], p.judge.judge(0, 0), dues[k][i]);
+            }
+        }
+        for (int k = 0; k < 5; k++) {
+            p.says(texts[k]);
+            for (int i = 0; i < 2; i++) p.is(hexes[i], dues[k][i]);
+        }
     }
 
     private static void notJudged() {

@@ -32,7 +32,7 @@ public final class EdgeItemTest {
     }
 
     private static void initialBytes() {
-        Probe.sentence("an initial byte (major type in its highest 3 bits, the lowest 5: 0 .. 23 itself, 24 .. 27 the next 1, 2, 4, 8 bytes, 31 without length)");
+        Probe.sentence("an initial byte (major type in its highest 3 bits, the lowest 5: 0 .. 23 itself, 24 .. 27 the next 1, 2, 4, 8 bytes, 31 without length), major 0 a number, 1 (-1 less it), 2 bytes, 3 text, 4 an array, 5 a map (pairs), 6 a tag with an item,");
         for (int b = 0; b < 256; b++) {
             int major = b >> 5;
             int info = b & 31;

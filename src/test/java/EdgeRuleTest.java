@@ -133,6 +133,9 @@ public final class EdgeRuleTest {
         kind("a = int" + g, 0, 0);
         kind("a<p> = p" + g, 0, 0);
         kind("a<p> = h<p>" + g, 0, 1);
+        // In a rule that is no INSTANCE there may be as many ( as can be open.
+        kind("a<p> = " + wrap(15, "g") + g, 0, 1);
+        kind("a<p> = " + wrap(16, "g") + g, 0, 1);
         P.faultAt("a = @@g / 1" + g, 6);
         P.faultAt("a = 1 / @@g" + g, 6);
         P.faultAt("a = (1 / @@g)" + g, 6);
@@ -544,7 +547,9 @@ public final class EdgeRuleTest {
         P.faultAt("@@a = (1 / a) .cborseq 1", 9);
         P.faultAt("@@a = a .lt 1", 9);
         P.faultAt("@@a = #2 .cbor 1 / a", 9);
-        P.faultAt("@@a = [1] / a", 9);
+        for (String before : new String[] {"[1]", "{1 => 1}", "#6(1)", "&(1)", "(1)", "# .cborseq 1", "b<1>"}) P.faultAt("b<p> = 1 @@a = " + before + " / a", 9);
+        P.faultAt("x = a / 1 @@a = b b = a", 9);
+        P.faultAt("x = 1 / a @@a = (a)", 9);
         // Behind all these: other FAULTS come first, also behind in the text.
         P.faultAt("a = a b = @@x", 4);
         P.faultAt("a = a b = 1 @@b = 1", 2);
@@ -713,6 +718,13 @@ public final class EdgeRuleTest {
         P.rules("a = [[" + Probe.times("1 ", 100) + "]" + Probe.times("1 ", 99) + "]", 1);
         tooMuch("a = [[" + Probe.times("1 ", 100) + "]" + Probe.times("1 ", 100) + "]");
         P.rules("a = 1" + Probe.times("/1", 148), 1);
+        // What is in a [ ], { } or & is that group's alone.
+        for (String one : new String[] {"[1]", "{1 => 1}", "&(1)", "&(1, 2, 3)", "[]", "#6([1])"}) {
+            P.rules("a = [" + one + Probe.times(" 1", 99) + "]", 1);
+            tooMuch("a = [" + one + Probe.times(" 1", 100) + "]");
+            P.rules("a //= (" + one + Probe.times(" 1", 98) + ")", 1);
+            tooMuch("a //= (" + one + Probe.times(" 1", 99) + ")");
+        }
     }
 
     private static void countedEntries() {
@@ -801,6 +813,26 @@ public final class EdgeRuleTest {
             P.rules(chain(15, group), 16);
             tooMuch(chain(16, group));
         }
+        // Beside one another they lie in none: neither more nor less is in the way of what comes behind.
+        for (String one : new String[] {"(1)", "((1))", "[1]", "{1 => 1}", "#6(1)", "&(1)", "b<1>", "# .cbor (1)", "# .cborseq 1", "(1 / (2)) .and ((3))"}) {
+            P.rules("a = " + Probe.times(one + " / ", 12) + wrap(15, "int") + " b<p> = 1", 2);
+            tooMuch("a = " + Probe.times(one + " / ", 12) + wrap(16, "int") + " b<p> = 1");
+            P.rules("a = [" + one + ", " + wrap(15, "int") + "] b<p> = 1", 2);
+        }
+        for (String one : new String[] {"(1, 2)", "()", "? (1)", "((1, 2), 3)", "x: (1)", "(1) => (2)", "[(1, 2)]"}) {
+            P.rules("a = [" + one + ", " + wrap(15, "int") + "]", 1);
+            P.rules("a = [" + Probe.times(one + " ", 8) + wrap(15, "int") + "]", 1);
+            P.rules("a = &(" + one + ", " + wrap(14, "int") + ")", 1);
+            tooMuch("a = &(" + one + ", " + wrap(15, "int") + ")");
+            P.rules("a //= (" + one + ", (" + wrap(13, "int") + ", 1))", 1);
+            tooMuch("a //= (" + one + ", (" + wrap(14, "int") + ", 1))");
+        }
+        for (String one : new String[] {"(1)", "[1]", "{1 => 1}", "#6(1)", "&(1)", "b<1>", "# .cbor (1)", "# .cborseq 1", "(1 / 2) .and (3)"}) {
+            P.rules(chain(13, "((" + one + " / int))") + " b<p> = 1", 15);
+            tooMuch(chain(13, "(((" + one + " / int)))") + " b<p> = 1");
+            P.rules(chain(12, "(" + one + ", (1, int))") + " b<p> = 1", 14);
+            tooMuch(chain(14, "(" + one + ", (1, int))") + " b<p> = 1");
+        }
         P.rules("a = " + wrap(14, "b, 1") + " b = (1, 2)", 2);
         tooMuch("a = " + wrap(15, "b, 1") + " b = (1, 2)");
         P.rules("a = " + wrap(15, "b, 1") + " b //= 1", 2);
@@ -829,6 +861,16 @@ public final class EdgeRuleTest {
         P.rules("a = " + wrap(11, "b<c>") + " b<p> = d<p> d<p> = (p) c = 1", 4);
         tooMuch("a = " + wrap(12, "b<c>") + " b<p> = d<p> d<p> = (p) c = 1");
         P.rules("a = " + wrap(14, "b<[c]>") + " b<p> = 1 c = int", 3);
+        // Of an ARGUMENT all that is not in a [ ], { }, #6 ( ) or behind cbor; of each parameter its own.
+        P.rules("a = " + wrap(12, "b<[1] .and (int)>") + " b<p> = p", 2);
+        tooMuch("a = " + wrap(13, "b<[1] .and (int)>") + " b<p> = p");
+        P.rules("a = " + wrap(11, "b<1, ((int))>") + " b<p, q> = q", 2);
+        tooMuch("a = " + wrap(12, "b<1, ((int))>") + " b<p, q> = q");
+        P.rules("a = " + wrap(12, "b<1, ((int))>") + " b<p, q> = p", 2);
+        P.rules("a = " + wrap(10, "b<1, ((int))>") + " b<p, q> = c<q> c<p> = 1", 3);
+        tooMuch("a = " + wrap(11, "b<1, ((int))>") + " b<p, q> = c<q> c<p> = 1");
+        P.rules("a = " + wrap(10, "b<1, ((int))>") + " b<p, q> = c<q> c<p> = p", 3);
+        tooMuch("a = " + wrap(11, "b<1, ((int))>") + " b<p, q> = c<q> c<p> = p");
     }
 
     private static void longPathsOfUnwraps() {

@@ -332,6 +332,11 @@ public final class EdgeTextTest {
         P.faultAt("a = [1+@@]", 1);
         P.faultAt("a = [1*@@]", 1);
         P.faultAt("a = [1*2@@]", 1);
+        P.faultAt("a = [1*2@@.5]", 1);
+        P.faultAt("a = [1*@@2e5]", 7);
+        P.faultAt("a = [*2@@.5]", 1);
+        P.faultAt("a = [@@1.5*2 1]", 7);
+        P.faultAt("a = [@@1e5*2 1]", 7);
     }
 
     private static void occurBounds() {
@@ -472,6 +477,9 @@ public final class EdgeTextTest {
         P.faultAt("a = 1@@//2", 1);
         P.faultAt("a = 1 / @@/2", 1);
         P.says("a = [12]").so("810c").notSo("820102");
+        P.says("a = {b<1>=>2} b<p>=p").so("a10102").notSo("a10101");
+        P.rules("a<p>=p b<p>/=p c<p>//=p", 3);
+        P.faultAt("a=b@@/=1", 1);
         P.says("a = [ab] ab = 1 a2 = 1").so("8101");
         P.rules("a = [1...2]", 1);
         P.says("a = 1...2").so("01").notSo("02");
@@ -484,6 +492,9 @@ public final class EdgeTextTest {
         P.says("a = [# 1]").so("820001").notSo("8120");
         P.says("a = [#1]").so("8120").notSo("820001");
         P.says("a = [#10]").so("822000").notSo("8120", "810a");
+        P.says("a = [#1b] b = 5").so("822005").notSo("8120");
+        P.faultAt("a = [#1@@x]", 4);
+        P.faultAt("a = #6@@x(1)", 1);
         P.says("a = [#7.20]").so("81f4").notSo("81f5");
         P.says("a = [#7 .size 1]").notSo("81f4");
         P.says("a = #6.0x10(1)").so("d001").notSo("c001");
@@ -550,7 +561,7 @@ public final class EdgeTextTest {
     }
 
     private static void typeOrEntry() {
-        Probe.sentence("What is behind = is a type, if from there a type can be read (as long as can be) that ends at the text's end or where a NAME, perhaps with < NAME { , NAME } >, and = /= //= come; else an entry.");
+        Probe.sentence("What is behind = is a type, if from there a type can be read (as long as can be) that ends at the text's end or where a NAME, perhaps with < NAME { , NAME } >, and = /= or //= come; else an entry.");
         kind("a = 1", 0, 0);
         kind("a = 1 b = 2", 0, 0);
         kind("a = 1 b /= 2", 0, 0);
@@ -776,6 +787,23 @@ public final class EdgeTextTest {
         P.faultAt("a = (1 / 2@@", 1);
         P.faultAt("a = (* 1) @@/ 2", 1);
         P.faultAt("a = x: 1 @@=> 2", 1);
+        P.faultAt("a = (1) @@/ ", 1);
+        P.faultAt("a //= (1) @@/ ", 1);
+        P.faultAt("a = [(1) @@=> 2 / ]", 1);
+        P.faultAt("a = [(1) @@/ b<]", 1);
+        P.faultAt("a = [* (1) @@/ ]", 1);
+        P.faultAt("a = ((1) @@/ )", 1);
+        // Where a type alone can stand, and behind what has been read as one, there is one way.
+        P.faultAt("a /= (1) /@@", 1);
+        P.faultAt("a = [x: (1) / @@]", 1);
+        P.faultAt("a = [1 => (1) .. @@]", 1);
+        P.faultAt("a = [1 / (2) / @@]", 1);
+        P.faultAt("a = #6((1) / @@)", 1);
+        P.faultAt("a = b<(1) .. @@>", 1);
+        P.faultAt("a = [(1) / 2 @@=> 3]", 1);
+        P.faultAt("a = [(1) .size 1 @@.size 2]", 1);
+        P.faultAt("a = [(1) => 2 @@=> 3]", 1);
+        P.faultAt("a = [@@(1) .. 2 => 3]", 8);
     }
 
     private static void betweenTokens() {

@@ -13,8 +13,11 @@ public final class EdgeTypeTest {
         parameters();
         unwraps();
         ofGroups();
+        firstAsT();
         sizesOfBytes();
         sizesOfNumbers();
+        sizesAsNumbers();
+        placesAsNumbers();
         bitsOfNumbers();
         bitsOfBytes();
         oneItem();
@@ -156,6 +159,22 @@ public final class EdgeTypeTest {
         P.says("a = b<1> b<p> = c<[p]> c<p> = [p]").so("818101").notSo("8101", "81818101");
         P.says("a = b<1> b<int> = int / 7").so("01", "07").notSo("02");
         P.says("a = b<1> b<c> = c c = 2").so("01").notSo("02");
+        P.says("a = [b<1>, b<2>] b<p> = c<7, [p]> c<q, r> = [q, r]").so("82820781018207" + "8102").notSo("828207810182078101", "828207810282078102", "828207810282078101");
+        P.says("a = [b<1, 2>, b<1, 3>] b<p, q> = c<[q]> c<r> = r").so("8281028103").notSo("8281028102", "8281038102", "8281018101");
+        P.says("a = [b<1>, b<2>] b<p> = c<d<3>> c<q> = [q] d<q> = [q]").so("82818103818103").notSo("82818101818102", "82818103818102");
+        // Whatever a parameter stands in.
+        String[] forms = {"p", "(p)", "9 / p", "p / 9", "[p]", "[9 // p]", "[9, p]", "[p, 9]", "[(9, p)]", "{p => 9}", "{9 => p}", "{(p) ^ => 9}", "{? (p => 9)}", "#6(p)", "#6.1([p])", "&(9, p)", "&(9 // x: p)",
+            "# .and p", "p .and #", "# .size p", "# .bits p", "# .cbor p", "# .cborseq [p]", "c<p>", "c<[p]>", "c<9> / c<p>", "~d<p>", "&g<p>", "[g<p>]", "{h<p>}", "9 / # .within [p]"};
+        String[] ones = {"01", "01", "01", "01", "8101", "8101", "820901", "820109", "820901", "a10109", "a10901", "a10109", "a10109", "c501", "c18101", "01", "01", "01", "01", "4100", "02", "4101", "4101", "01", "8101",
+            "01", "01", "01", "820901", "a10109", "8101"};
+        String[] twos = {"02", "02", "02", "02", "8102", "8102", "820902", "820209", "820902", "a10209", "a10902", "a10209", "a10209", "c502", "c18102", "02", "02", "02", "02", "420000", "04", "4102", "4102", "02",
+            "8102", "02", "02", "02", "820902", "a10209", "8102"};
+        String more = " c<q> = q d<q> = #6(q) g<q> = (9, q) h<q> = (q => 9)";
+        for (int i = 0; i < forms.length; i++) {
+            P.says("a = [b<1>, b<2>, b<1>] b<p> = " + forms[i] + more).so("83" + ones[i] + twos[i] + ones[i]);
+            P.notSo("83" + ones[i] + ones[i] + ones[i], "83" + twos[i] + twos[i] + twos[i], "83" + twos[i] + ones[i] + twos[i]);
+            P.says("a = b<1> / [b<2>] b<p> = " + forms[i] + more).so(ones[i], "81" + twos[i]).notSo(twos[i]);
+        }
         P.says("a = b<c> b<p> = p c = 2").so("02").notSo("01");
     }
 
@@ -188,6 +207,20 @@ public final class EdgeTypeTest {
         P.says("a = &(~b) b = {5 => 1, x: 2}").so("01", "02").notSo("05", "03");
         P.says("a = &([1], {2 => 2})").so("8101", "a10202").notSo("01", "02");
         P.says("a = &(0*0 (1, 2), 2*1 g) g = (3, 4)").so("01", "02", "03", "04").notSo("05");
+    }
+
+    private static void firstAsT() {
+        Probe.sentence("t CONTROL c: an item as t, and:");
+        String[] controls = {"size 1", "bits #", "cbor #", "cborseq #", "within #", "and #", "lt 9", "le 9", "gt 0", "ge 0", "eq 5", "ne 6", "default 5"};
+        String[] items = {"4105", "05", "4105", "4105", "05", "05", "05", "05", "05", "05", "05", "05", "05"};
+        for (int i = 0; i < controls.length; i++) {
+            String item = items[i];
+            P.says("a = # ." + controls[i]).so(item);
+            P.says("a = tstr ." + controls[i]).notSo(item);
+            P.says("a = (tstr / #7) ." + controls[i]).notSo(item);
+            P.says("a = (tstr / # ." + controls[i] + ") ." + controls[i]).so(item);
+            P.says("a = $x ." + controls[i]).notSo(item);
+        }
     }
 
     private static void sizesOfBytes() {
@@ -237,6 +270,59 @@ public final class EdgeTypeTest {
         P.says("a = # .size (1 / 9)").so("01", "18ff").notSo("190100");
         P.says("a = # .size #").so("00", "1bffffffffffffffff", "40").notSo("20", "3bffffffffffffffff", "80", "a0", "c000", "e0", "f4", "f90000");
         P.says("a = # .size 8").notSo("20", "80", "fb0000000000000000").so("1bffffffffffffffff", "480000000000000000");
+    }
+
+    // Types of numbers of each kind, near 0, near 64 and near 256; n stands for one of these.
+    private static final String[] NUMBERS = {"n", "n..(n+1)", "(n-1)...n", "n / 3", "3 / n", "(n)", "c", "c / d", "e<n>", "~f", "~g<n>", "&h", "&(7, n // x: n)", "&k<n>", "# .lt n", "# .le n", "# .gt n", "# .ge n",
+        "# .eq n", "# .ne n", "# .default 5", "n .default #1", "n .and #", "# .and n", "(0..n) .and (n..400)", "# .within c", "#0", "#1", "#3", "#", "tstr", "[n]", "{n => n}", "#6(n)", "#7.20", "$x", "&$$x", "p .and q",
+        "# .lt -1", "# .gt -1", "# .le -1", "# .ge -1", "# .eq -1", "# .ne -1", "-1", "-5..n", "-5...n", "-5..-1", "n..-1", "# .eq \"x\"", "# .ne \"x\"", "# .cbor n", "# .size 0", "# .size 1", "# .size 2", "# .size 3",
+        "# .size (0 / 2)", "# .size 9", "# .size #1", "# .bits (0 / 1 / 6)", "# .bits 0", "# .bits #", "# .bits #1", "# .bits (3..8)", "# .bits 64", "# .lt 18446744073709551615", "# .gt 18446744073709551615",
+        "0..18446744073709551615", "n..18446744073709551615", "n...18446744073709551615", "# .size (# .size 1)", "# .bits (# .bits 1)", "(# .lt 70) .size 1", "(# .gt n) .bits (0..5)", "(# .and (# .ne n)) .lt 300"};
+    private static final String MORE = " c = n d = 9 / (10) e<r> = r f = #6.1(n / 4) g<r> = #6(r) h = (n, x: 2) k<r> = (r, 2) p = q / n q = 0..300";
+
+    /** A type of numbers, for one n. */
+    private static String typeOf(String type, int n) {
+        String more = (type + MORE).replace("(n+1)", "" + (n + 1)).replace("(n-1)", "" + (n - 1));
+        return more.replaceAll("\\bn\\b", "" + n);
+    }
+
+    private static void sizesAsNumbers() {
+        Probe.sentence("how many bytes is (as a number) as c;");
+        for (int n : new int[] {1, 64, 256}) {
+            for (String type : NUMBERS) {
+                P.says("a = # .size aa b = aa aa = " + typeOf(type, n));
+                for (int k : new int[] {0, 1, 2, 3, 4, 5, 8, 9, 62, 63, 64, 65, 66, 127, 128, 254, 255, 256, 257, 300, 301}) {
+                    P.item("82" + held(Probe.times("ab", k)) + number(0, k));
+                    Probe.due(k + " bytes .size " + typeOf(type, n), P.judge.judge(0, 1), P.judge.judge(1, 2));
+                }
+                // A number is so if one of the n 0 .. 8 is for which it is below 256^n.
+                for (int w = 0; w <= 8; w++) {
+                    P.item("82" + (w == 0 ? "00" : "1b" + Probe.times("00", 8 - w) + "01" + Probe.times("00", w - 1)) + "00");
+                    int due = 0;
+                    long got = P.judge.judge(0, 1);
+                    for (int k = w; k <= 8; k++) {
+                        P.item(number(0, k));
+                        due |= P.judge.judge(1, 0);
+                    }
+                    Probe.due("a number of " + w + " bytes .size " + typeOf(type, n), got, due);
+                }
+            }
+        }
+    }
+
+    private static void placesAsNumbers() {
+        Probe.sentence("its place (bit 0 the lowest of the first byte, or of the number) is as c;");
+        for (int n : new int[] {1, 64, 256}) {
+            for (String type : NUMBERS) {
+                P.says("a = # .bits aa b = aa aa = " + typeOf(type, n));
+                for (int k : new int[] {0, 1, 2, 3, 4, 5, 8, 9, 62, 63, 64, 65, 66, 127, 128, 254, 255, 256, 257, 300, 301}) {
+                    P.item("83" + held(Probe.times("00", k / 8) + String.format("%02x", 1 << k % 8)) + number(0, k) + (k < 64 ? String.format("1b%016x", 1L << k) : "00"));
+                    int due = P.judge.judge(1, 2);
+                    Probe.due("bit " + k + " .bits " + typeOf(type, n), P.judge.judge(0, 1), due);
+                    Probe.due("number's bit " + k + " .bits " + typeOf(type, n), P.judge.judge(0, 3), k < 64 ? due : 1);
+                }
+            }
+        }
     }
 
     private static void bitsOfNumbers() {

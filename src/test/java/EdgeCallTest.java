@@ -530,6 +530,8 @@ public final class EdgeCallTest {
         written("d81801", "24(1)");
         written("c1c2c303", "1(2(3(3)))");
         written(Probe.times("81", 9) + "80", Probe.times("[", 10) + Probe.times("]", 10));
+        written(Probe.times("c1", 9) + "00", Probe.times("1(", 9) + "0" + Probe.times(")", 9));
+        written(Probe.times("a100", 9) + "60", Probe.times("{0: ", 9) + "\"\"" + Probe.times("}", 9));
         written("a18001", "{[]: 1}");
         written("a1a10102a0", "{{1: 2}: {}}");
     }
@@ -695,6 +697,9 @@ public final class EdgeCallTest {
         }
         eachForm(4, 100, Probe.times("00", 100));
         eachForm(2, 2900, Probe.times("ab", 2900));
+        shortened(Probe.times("9f", 9) + "5fff" + Probe.times("ff", 9), Probe.times("81", 9) + "40");
+        shortened(Probe.times("d801", 9) + "1800", Probe.times("c1", 9) + "00");
+        shortened(Probe.times("bf1800", 9) + "7fff" + Probe.times("ff", 9), Probe.times("a100", 9) + "60");
         shortened("5fff", "40");
         shortened("7fff", "60");
         shortened("7f60616160ff", "6161");

@@ -327,6 +327,10 @@ public final class EdgeTextTest {
         P.faultAt("a = 1..@@5*2", 1);
         P.faultAt("a = [5..@@5*2 1]", 1);
         P.faultAt("a = [2*@@*3 1]", 1);
+        P.says("a = [1+5]").so("820105", "83010505").notSo("8101", "8106");
+        P.says("a = [1?5]").so("8101", "820105").notSo("83010505");
+        P.says("a = [0x1e+5]").so("82181e05").notSo("81181e");
+        P.faultAt("a = [@@1e+5]", 7);
         P.faultAt("a = [+@@+ 1]", 1);
         P.faultAt("a = [?@@* 1]", 1);
         P.faultAt("a = [1+@@]", 1);

@@ -62,7 +62,7 @@ public final class EdgeKindTest {
 
     private static final Place[] PLACES = {
         new Place("@", "@"), new Place("(@)", "@"), new Place("1000 / @", "@"), new Place("@ / 1000", "@"), new Place("y", "\ny = @", "@"),
-        new Place("y", "\ny = 1000 y /= @", "@"), new Place("y", "\ny /= @ y /= 1000", "@"), new Place("y", "\ny = z z = (@)", "@"),
+        new Place("(1000 / @)", "@"), new Place("y", "\ny = 1000 y /= @", "@"), new Place("y", "\ny = 1000 y /= 2000 / @", "@"), new Place("y", "\ny /= @ y /= 1000", "@"), new Place("y", "\ny = z z = (@)", "@"),
         new Place("[@]", "81@"), new Place("[1000 // @]", "81@"), new Place("[@ // 1000]", "9f@ff"), new Place("[0, @]", "8200@"),
         new Place("[@, 0]", "82@00"), new Place("[* @]", "83@@@"), new Place("[1*2 @, 0]", "83@@00"), new Place("[(0, @)]", "8200@"),
         new Place("[(1000 // 0, (@))]", "8200@"), new Place("[x: @]", "81@"), new Place("[1 => @]", "81@"), new Place("[@ => @]", "81@"),
@@ -71,7 +71,7 @@ public final class EdgeKindTest {
         new Place("{x: @}", "a16178@"), new Place("{5: 5, \"x\": @}", "a26178@0505"), new Place("{@ => 0}", "a1@00"), new Place("{@ ^ => 0}", "a1@00"),
         new Place("{* @ => 0}", "bf@00ff"), new Place("{(0: @)}", "a100@"), new Place("{0: 1000 // 0: @}", "a100@"), new Place("{? (0 => @)}", "a100@"),
         new Place("{y}", "\ny = (0: @, ? 1: 1)", "a100@"), new Place("{~y}", "\ny = {0: @}", "a100@"), new Place("{~y}", "\ny = [0: @]", "a100@"),
-        new Place("{* (5 // @ => 0)}", "a1@00"), new Place("#6.5(@)", "c5@"), new Place("#6(@)", "d87b@"), new Place("~y", "\ny = #6.5(@)", "@"),
+        new Place("{* (5 // @ => 0)}", "a1@00"), new Place("#6.5(@)", "c5@"), new Place("#6.5(1000 / @)", "c5@"), new Place("#6(@)", "d87b@"), new Place("~y", "\ny = #6.5(@)", "@"),
         new Place("~y", "\ny = (z) z = #6.5(1000 / @)", "@"), new Place("&(@)", "@"), new Place("&(1000, k: @)", "@"), new Place("&(1000 // (* @))", "@"),
         new Place("&y", "\ny = (1000, 0 => @)", "@"), new Place("&y", "\ny = 1000: 1000 y //= 1: @", "@"), new Place("&(y)", "\ny = (1000, @)", "@"),
         new Place("bstr .cbor @", "<@>"), new Place("bstr .cborseq [@]", "<@>"), new Place("bstr .cborseq [0, * @]", "<00@@>"),
@@ -118,6 +118,7 @@ public final class EdgeKindTest {
 
     public static void main(String[] args) {
         kindsAtPlaces();
+        leftOfControls();
         placesInPlaces();
         numbersAtPlaces();
         Probe.finish();
@@ -140,8 +141,57 @@ public final class EdgeKindTest {
     private static void kindsAtPlaces() {
         Probe.sentence("4 AN ITEM IS as a type says");
         for (Place place : PLACES) {
-            for (Kind kind : KINDS) ask(place, kind);
+            for (Kind kind : KINDS) {
+                ask(place, kind);
+                // Without its ( ), where that is no type2 only.
+                boolean one = kind.type.startsWith("(") && !kind.type.contains(" / ") && !place.type.contains(" .");
+                if (one) ask(place, new Kind(kind.type.substring(1, kind.type.length() - 1), kind.so, kind.notSo));
+            }
         }
+    }
+
+    private static void leftOfControls() {
+        Probe.sentence("t CONTROL c: an item as t, and: size: bytes or text: how many bytes is (as a number) as c");
+        for (Kind kind : KINDS) {
+            left(kind, ".size uint", "023");
+            left(kind, ".bits uint", "02");
+            left(kind, ".lt 18446744073709551615", "01");
+            left(kind, ".le 18446744073709551615", "01");
+            left(kind, ".gt -18446744073709551615", "01");
+            left(kind, ".ge -18446744073709551615", "01");
+            left(kind, ".within any", "01234567");
+            left(kind, ".and #", "01234567");
+            left(kind, ".ne 1000", "01234567");
+            left(kind, ".default 1000", "01234567");
+            left(kind, ".size $x", "");
+            left(kind, ".within $x", "");
+            left(kind, ".and nint", "1");
+            left(kind, ".cbor $x", "");
+        }
+        for (String control : new String[] {".cbor", ".cborseq"}) {
+            Probe p = new Probe();
+            p.says("a = 'ab' " + control + " any").so("426162", "5f41614162ff").notSo("426163", "4161", "626162", "40");
+            p.says("a = h'00' " + control + " #").so("4100", "5f4100ff").notSo("4101", "00");
+            p.says("a = (\"ab\" / 'ab' / 7 / [7] / {} / #6(7) / f) " + control + " any f = h'07'").so("426162", "4107").notSo("626162", "07", "8107", "a0", "c107");
+            p.says("a = &(7, 'ab') " + control + " any").so("426162").notSo("07", "4107");
+            p.says("a = ~t " + control + " any t = #6('ab')").so("426162").notSo("c1426162", "4107");
+            p.says("a = f<'ab'> " + control + " any f<p> = p / h'07'").so("426162", "4107").notSo("4108", "07");
+            p.says("a = #2 " + control + " any").so("426162", "4107").notSo("626162", "41ff", "07");
+        }
+    }
+
+    /** Items that are as the type before the CONTROL are so if they are of one of these majors. */
+    private static void left(Kind kind, String control, String majors) {
+        Probe p = new Probe();
+        p.says("a = " + kind.type + " " + control + HELP);
+        for (String hex : kind.so.split(" ")) {
+            if (hex.isEmpty()) continue;
+            int major = Integer.parseInt(hex.substring(0, 2), 16) >> 5;
+            // 2^64 - 1 is not below itself.
+            boolean most = hex.equals("1bffffffffffffffff") && control.startsWith(".lt");
+            p.is(hex, majors.indexOf('0' + major) >= 0 && !most ? 1 : 0);
+        }
+        for (String hex : kind.notSo.split(" ")) p.notSo(hex);
     }
 
     private static void placesInPlaces() {

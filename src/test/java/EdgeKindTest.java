@@ -171,11 +171,25 @@ public final class EdgeKindTest {
             left(kind, ".and nint", "1");
             left(kind, ".cbor $x", "");
         }
+        for (String other : new String[] {"[* any]", "{* any => any}", "#6(any)", "#7", "#1", "#4", "$x", "~tdate", "&([])"}) {
+            for (String control : new String[] {".size", ".bits"}) {
+                String[] no = other.equals("~tdate") ? new String[] {"00", "40", "4101"} : new String[] {"00", "07", "40", "4101", "60", "6161"};
+                new Probe().says("a = " + other + " " + control + " uint").notSo(no);
+            }
+        }
+        for (String other : new String[] {"'a'", "\"a\"", "[* any]", "{* any => any}", "#6(any)", "#7", "#2", "$x", "~tdate", "&('a')"}) {
+            for (String control : new String[] {".lt 5", ".le 5", ".gt -5", ".ge -5"}) {
+                new Probe().says("a = " + other + " " + control).notSo("00", "04", "20", "23", "4161", "6161", "80", "a0", "c100", "f4");
+            }
+        }
         for (String control : new String[] {".cbor", ".cborseq"}) {
             Probe p = new Probe();
             p.says("a = 'ab' " + control + " any").so("426162", "5f41614162ff").notSo("426163", "4161", "626162", "40");
             p.says("a = h'00' " + control + " #").so("4100", "5f4100ff").notSo("4101", "00");
             p.says("a = (\"ab\" / 'ab' / 7 / [7] / {} / #6(7) / f) " + control + " any f = h'07'").so("426162", "4107").notSo("626162", "07", "8107", "a0", "c107");
+            for (String other : new String[] {"7", "\"ab\"", "[7]", "{}", "#6(7)", "#7", "#0", "#3", "&(7)", "$x", "~tdate"}) {
+                p.says("a = " + other + " " + control + " any").notSo("4107", "426162", "4100", "07", "626162", "8107", "a0", "c107", "f4");
+            }
             p.says("a = &(7, 'ab') " + control + " any").so("426162").notSo("07", "4107");
             p.says("a = ~t " + control + " any t = #6('ab')").so("426162").notSo("c1426162", "4107");
             p.says("a = f<'ab'> " + control + " any f<p> = p / h'07'").so("426162", "4107").notSo("4108", "07");

@@ -66,10 +66,13 @@ public final class EdgeKindTest {
         new Place("(1000 / @)", "@"), new Place("y", "\ny = 1000 y /= @", "@"), new Place("y", "\ny = 1000 y /= 2000 / @", "@"), new Place("y", "\ny /= @ y /= 1000", "@"), new Place("y", "\ny = z z = (@)", "@"),
         new Place("[@]", "81@"), new Place("[1000 // @]", "81@"), new Place("[@ // 1000]", "9f@ff"), new Place("[0, @]", "8200@"),
         new Place("[@, 0]", "82@00"), new Place("[* @]", "83@@@"), new Place("[1*2 @, 0]", "83@@00"), new Place("[(0, @)]", "8200@"),
-        new Place("[(1000 // 0, (@))]", "8200@"), new Place("[x: @]", "81@"), new Place("[1 => @]", "81@"), new Place("[@ => @]", "81@"),
+        new Place("[(1000 // 0, (@))]", "8200@"), new Place("[x: @]", "81@"), new Place("[1000 / @]", "81@"), new Place("[x: 1000 / @]", "81@"), new Place("[0, x: @]", "8200@"),
+        new Place("[1000 // 1 => @]", "81@"), new Place("[1 => @]", "81@"), new Place("[@ => @]", "81@"),
         new Place("[y]", "\ny = (0, @)", "8200@"), new Place("[y]", "\ny //= 1000 y //= @", "81@"), new Place("[y]", "\ny = z z = (@, 0)", "82@00"),
         new Place("[0, ~y]", "\ny = [@, 0]", "8300@00"), new Place("[~y]", "\ny = {x: @}", "81@"), new Place("{0 => @}", "a100@"),
-        new Place("{x: @}", "a16178@"), new Place("{5: 5, \"x\": @}", "a26178@0505"), new Place("{@ => 0}", "a1@00"), new Place("{@ ^ => 0}", "a1@00"),
+        new Place("{x: @}", "a16178@"), new Place("{5: 5, \"x\": @}", "a26178@0505"), new Place("{@ => 0}", "a1@00"), new Place("{0: 1000 / @}", "a100@"), new Place("{1000 => 1, @ => 0}", "a21903e801@00"),
+        new Place("{1000: 1 // @ => 0}", "a1@00"), new Place("{1000: 1 // @ ^ => 0}", "a1@00"), new Place("{? 1000: 1, @ ^ => 0}", "a1@00"), new Place("{? 1000 => 1, 0 => @}", "a100@"),
+        new Place("{1000: 1 // 0 => @}", "a100@"), new Place("{@ ^ => 0}", "a1@00"),
         new Place("{* @ => 0}", "bf@00ff"), new Place("{(0: @)}", "a100@"), new Place("{0: 1000 // 0: @}", "a100@"), new Place("{? (0 => @)}", "a100@"),
         new Place("{y}", "\ny = (0: @, ? 1: 1)", "a100@"), new Place("{~y}", "\ny = {0: @}", "a100@"), new Place("{~y}", "\ny = [0: @]", "a100@"),
         new Place("{* (5 // @ => 0)}", "a1@00"), new Place("#6.5(@)", "c5@"), new Place("#6.5(1000 / @)", "c5@"), new Place("#6(@)", "d87b@"), new Place("~y", "\ny = #6.5(@)", "@"),
@@ -176,6 +179,12 @@ public final class EdgeKindTest {
                 String[] no = other.equals("~tdate") ? new String[] {"00", "40", "4101"} : new String[] {"00", "07", "40", "4101", "60", "6161"};
                 new Probe().says("a = " + other + " " + control + " uint").notSo(no);
             }
+        }
+        for (String other : new String[] {"7", "\"ab\"", "'ab'", "{}", "#6(any)", "#7", "#0", "#2", "&(7)", "n", "~t", "(1..9)", "$x", "[]"}) {
+            new Probe().says("a = bstr .cborseq " + other + HELP).notSo("4107", "426162", "42c107", "41f4", "4140", "41a0", "420707", "4180");
+        }
+        for (String other : new String[] {"#4", "any", "#", "[* any]", "&(1, x: [+ int])", "(1 / [7, 7] / [* 7])", "b<7>"}) {
+            new Probe().says("a = bstr .cborseq " + other + HELP).so("4107").notSo("4118", "07", "8107", "41ff");
         }
         for (String other : new String[] {"'a'", "\"a\"", "[* any]", "{* any => any}", "#6(any)", "#7", "#2", "$x", "~tdate", "&('a')"}) {
             for (String control : new String[] {".lt 5", ".le 5", ".gt -5", ".ge -5"}) {

@@ -123,6 +123,7 @@ public final class EdgeKindTest {
     public static void main(String[] args) {
         kindsAtPlaces();
         leftOfControls();
+        leftOfEq();
         placesInPlaces();
         numbersAtPlaces();
         Probe.finish();
@@ -183,7 +184,7 @@ public final class EdgeKindTest {
         for (String other : new String[] {"7", "\"ab\"", "'ab'", "{}", "#6(any)", "#7", "#0", "#2", "&(7)", "n", "~t", "(1..9)", "$x", "[]"}) {
             new Probe().says("a = bstr .cborseq " + other + HELP).notSo("4107", "426162", "42c107", "41f4", "4140", "41a0", "420707", "4180");
         }
-        for (String other : new String[] {"#4", "any", "#", "[* any]", "&(1, x: [+ int])", "(1 / [7, 7] / [* 7])", "b<7>"}) {
+        for (String other : new String[] {"#4", "any", "#", "[* any]", "&(1, x: [+ int])", "&h<[* int]>", "(1 / [7, 7] / [* 7])", "b<7>"}) {
             new Probe().says("a = bstr .cborseq " + other + HELP).so("4107").notSo("4118", "07", "8107", "41ff");
         }
         for (String other : new String[] {"'a'", "\"a\"", "[* any]", "{* any => any}", "#6(any)", "#7", "#2", "$x", "~tdate", "&('a')"}) {
@@ -200,10 +201,33 @@ public final class EdgeKindTest {
                 p.says("a = " + other + " " + control + " any").notSo("4107", "426162", "4100", "07", "626162", "8107", "a0", "c107", "f4");
             }
             p.says("a = &(7, 'ab') " + control + " any").so("426162").notSo("07", "4107");
+            p.says("a = &k " + control + " any k = (7, x: 'ab')").so("426162").notSo("07", "4107");
             p.says("a = ~t " + control + " any t = #6('ab')").so("426162").notSo("c1426162", "4107");
             p.says("a = f<'ab'> " + control + " any f<p> = p / h'07'").so("426162", "4107").notSo("4108", "07");
             p.says("a = #2 " + control + " any").so("426162", "4107").notSo("626162", "41ff", "07");
         }
+    }
+
+    private static void leftOfEq() {
+        Probe.sentence("eq: the same as c; ne: not.");
+        String[][] same = {{"7", "07", "1807"}, {"\"ab\"", "626162", "7f61616162ff"}, {"'ab'", "426162", "5f41614162ff"}};
+        for (Kind kind : KINDS) {
+            for (String[] one : same) {
+                for (String hex : new String[] {"07", "1807", "08", "27", "626162", "7f61616162ff", "426162", "5f41614162ff", "8107", "f4", "c107"}) {
+                    boolean equal = hex.equals(one[1]) || hex.equals(one[2]);
+                    int as = asked(kind.type, hex);
+                    Probe.due(hex + " as " + kind.type + " .eq " + one[0], asked(kind.type + " .eq " + one[0], hex), equal ? as : 0);
+                    Probe.due(hex + " as " + kind.type + " .ne " + one[0], asked(kind.type + " .ne " + one[0], hex), equal ? 0 : as);
+                }
+            }
+        }
+    }
+
+    private static int asked(String type, String hex) {
+        Probe p = new Probe();
+        p.grammar("a = " + type + HELP);
+        p.item(hex);
+        return p.judge.judge(0, 0);
     }
 
     /** Items that are as the type before the CONTROL are so if they are of one of these majors. */
